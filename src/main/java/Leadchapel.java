@@ -1632,10 +1632,26 @@ public final class Leadchapel {
         int fewestHands(Book book) {
             int pages = readPages(book);
             int many = pages == 0 ? 0 : 1;
-            while (many < pages && !canPart(0, 0, pages, many)) {
+            while (many < pages && !canPart(0, 0, tightPages(pages, many), many)) {
                 many++;
             }
             return many;
+        }
+
+        /**
+         * The pages that are unlike as many others of them as there are parts, or more. All others find room behind
+         * them, so that they need not be tried.
+         */
+        private int tightPages(int pages, int most) {
+            int set = (1 << pages) - 1;
+            for (int round = 0; round < pages; round++) {
+                for (int page = 0; page < pages; page++) {
+                    if (Integer.bitCount(unlike[page] & set) < most) {
+                        set &= ~(1 << page);
+                    }
+                }
+            }
+            return set;
         }
 
         /** Finds which of the pages that are set are unlike; returns how many are set. */
@@ -1660,16 +1676,19 @@ public final class Leadchapel {
             return pages;
         }
 
-        /** Whether the pages from one on find room in so many parts, some of which are used by those ahead of it. */
-        private boolean canPart(int page, int used, int pages, int most) {
-            if (page >= pages) {
+        /** Whether those of a set of pages, from one on, find room in the parts, some of which are used already. */
+        private boolean canPart(int page, int used, int set, int most) {
+            if (page >= MOST_PAGES) {
                 return true;
+            }
+            if ((set & 1 << page) == 0) {
+                return canPart(page + 1, used, set, most);
             }
             boolean can = false;
             for (int part = 0; part <= used && part < most && !can; part++) {
                 if ((parts[part] & unlike[page]) == 0) {
                     parts[part] |= 1 << page;
-                    can = canPart(page + 1, Math.max(used, part + 1), pages, most);
+                    can = canPart(page + 1, Math.max(used, part + 1), set, most);
                     parts[part] &= ~(1 << page);
                 }
             }
