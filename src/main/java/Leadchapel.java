@@ -460,13 +460,13 @@ public final class Leadchapel {
 
     public int orders(int book) throws IndexOutOfBoundsException {
         Book its = bookAt(book);
-        scholar.readFormes(its, cases.count);
+        scholar.readFormes(its, cases);
         return scholar.countByLast(its.formes.length);
     }
 
     public int ordersAnew(int book) throws IndexOutOfBoundsException {
         Book its = bookAt(book);
-        scholar.readFormes(its, cases.count);
+        scholar.readFormes(its, cases);
         return scholar.countByPlace(its.formes.length);
     }
 
@@ -474,7 +474,7 @@ public final class Leadchapel {
         Book its = bookAt(book);
         requireIndex(its.hasForme(one) && its.hasForme(other));
         requireArgument(one != other);
-        scholar.readFormes(its, cases.count);
+        scholar.readFormes(its, cases);
         if ((scholar.allAheadOf(other, its.formes.length) & 1 << one) != 0) {
             return 1;
         }
@@ -1549,28 +1549,28 @@ public final class Leadchapel {
         final int[] full = new int[MOST_PAGES];
         final int[] parts = new int[MOST_PAGES];
 
-        /** Finds of which formes each one is surely behind. */
-        void readFormes(Book book, int pieces) {
+        /** Finds of which formes each one is surely behind; a piece that is not worn was seen in none. */
+        void readFormes(Book book, Cases cases) {
             for (int forme = 0; forme < book.formes.length; forme++) {
                 surelyAhead[forme] = 0;
-                for (int other = 0; other < book.formes.length; other++) {
-                    if (isLessWorn(book.formes[other], book.formes[forme], pieces)) {
-                        surelyAhead[forme] |= 1 << other;
-                    }
+            }
+            for (int piece = 0; piece < cases.count; piece++) {
+                if (cases.worn[piece] > 0) {
+                    readPiece(book, piece);
                 }
             }
         }
 
-        private static boolean isLessWorn(Forme one, Forme other, int pieces) {
-            if (!one.wasDone() || !other.wasDone()) {
-                return false;
-            }
-            for (int piece = 0; piece < pieces; piece++) {
-                if (one.seen[piece] > 0 && one.seen[piece] < other.seen[piece]) {
-                    return true;
+        private void readPiece(Book book, int piece) {
+            for (int forme = 0; forme < book.formes.length; forme++) {
+                int worn = book.formes[forme].seen[piece];
+                for (int other = 0; other < book.formes.length; other++) {
+                    int less = book.formes[other].seen[piece];
+                    if (less > 0 && less < worn) {
+                        surelyAhead[forme] |= 1 << other;
+                    }
                 }
             }
-            return false;
         }
 
         /** Counts the orders of each set of formes by the forme that is its last one. */
@@ -1590,30 +1590,23 @@ public final class Leadchapel {
         }
 
         /**
-         * Counts the orders place by place, with each forme tried at each place: those that have the same formes ahead
-         * of a place are tried together, as what fits behind them is the same.
+         * Counts the orders by trying each forme at each place, from the first one on: orders that have the same formes
+         * ahead of a place go on together, as the same fits behind them.
          */
         int countByPlace(int formes) {
             int all = (1 << formes) - 1;
             for (int set = 0; set <= all; set++) {
                 ways[set] = set == 0 ? 1 : 0;
             }
-            for (int place = 0; place < formes; place++) {
+            for (int ahead = 0; ahead < all; ahead++) {
                 for (int tried = 0; tried < formes; tried++) {
-                    tryAt(place, tried, all);
+                    boolean fits = (ahead & 1 << tried) == 0 && (surelyAhead[tried] & ~ahead) == 0;
+                    if (fits) {
+                        ways[ahead | 1 << tried] += ways[ahead];
+                    }
                 }
             }
             return ways[all];
-        }
-
-        private void tryAt(int place, int tried, int all) {
-            int its = 1 << tried;
-            for (int set = 0; set <= all; set++) {
-                boolean fits = (set & its) == 0 && (surelyAhead[tried] & ~set) == 0;
-                if (fits && Integer.bitCount(set) == place) {
-                    ways[set | its] += ways[set];
-                }
-            }
         }
 
         /** The formes that are ahead of one in all orders: surely, or by others that surely are between. */

@@ -129,6 +129,23 @@ public final class BooksAndPagesTests {
         dueLine(y, 1, 0, 2, 5, 7, 0, 0);
     }
 
+    /** As many words as a copy has on one page. */
+    private static void allWordsOnOnePage() {
+        Leadchapel x = new Leadchapel();
+        x.cast(0, 40);
+        x.cast(0, 20);
+        x.hand(0, 0, 0);
+        x.book(2, 1, 24, 6, 2);
+        for (int i = 0; i < 3; i++) {
+            Checks.copy(x, 0, "a a a a a a a a a a/a a a a a a a a a a");
+        }
+        Checks.due("empty places", 0, x.set(0, 0, 0));
+        duePage(x, 0, 60, 60, 0, 0, 6);
+        dueLine(x, 0, 5, 10, 59, 5, 0, 0);
+        Checks.due("the last piece", 0, x.place(0, 0, 59, 0));
+        Checks.due("no place behind it", -1, x.place(0, 0, 60, 0));
+    }
+
     /** The last line of a page, and copy that is more than all pages hold. */
     private static void tooMuchCopy() {
         Leadchapel x = house(10, 1, 0);
@@ -176,6 +193,13 @@ public final class BooksAndPagesTests {
         dueLine(x, 0, 2, 2, 6, 5, 0, 0);
         Checks.due("places for the forms that are set", 9 + 8 + 4, x.page(0, 0, 6));
 
+        Leadchapel z = house(10, 1, 1);
+        Checks.copy(z, 0, "abcdef do/abcdefg do");
+        z.set(0, 0, 0);
+        dueLine(z, 0, 0, 2, 1, 0, 0, 1);
+        z.set(0, 1, 0);
+        dueLine(z, 1, 0, 2, 3, 0, 0, 0);
+
         Leadchapel y = house(24, 1, 0, 3);
         Checks.copy(y, 0, "doe gooee/do go");
         y.set(0, 0, 0);
@@ -206,6 +230,13 @@ public final class BooksAndPagesTests {
         Leadchapel z = house(10, 2, 0);
         Checks.copy(z, 0, "do doe do doe do doe");
         Checks.due("units are of words as told", 6, z.castOff(0, 60));
+        Leadchapel v = house(10, 1, 0);
+        Checks.copy(v, 0, "abcd abcd abcd abcd abcd abcd");
+        Checks.due("the last part of four", 3, v.castOff(0, 50));
+        for (int page = 0; page < 4; page++) {
+            v.set(0, page, 0);
+            duePage(v, page, page < 3 ? 1 : 2, page < 3 ? page + 1 : 5, page < 3 ? 0 : 1, page < 3 ? 0 : 1, 1);
+        }
         castOffRefused();
     }
 
@@ -384,6 +415,18 @@ public final class BooksAndPagesTests {
             Checks.due("place " + place, due[place], x.place(1, 0, place, 1));
         }
         Checks.due("where a piece is", 200, x.piece(0, 2));
+        x.set(1, 1, 0);
+        x.cast(0, 1);
+        Checks.copy(x, 0, "a/a/a/a");
+        for (int page = 0; page < 2; page++) {
+            x.set(0, page, 0);
+        }
+        Checks.due("where a piece of the first book is", 100, x.piece(3, 2));
+        x.cast(0, 2);
+        x.set(0, 2, 0);
+        x.set(0, 3, 0);
+        Checks.due("on page 2", 102, x.piece(5, 2));
+        Checks.due("on page 3", 103, x.piece(4, 2));
     }
 
     /** Promises 15 to 17: what is refused. */
@@ -465,6 +508,23 @@ public final class BooksAndPagesTests {
         Checks.due("words of the part of page 1", 2, x.page(1, 1, 2));
     }
 
+    private static void followOneWord() {
+        Leadchapel x = house(10, 1, 0);
+        x.book(2, 1, 10, 1, 2);
+        Checks.copy(x, 0, "ab/c");
+        x.set(0, 0, 0);
+        Checks.due("a book with one word on its pages", 1, x.follow(1, 0));
+        Checks.due("and copy behind it", 2, Checks.copy(x, 1, "d"));
+        x.set(1, 0, 0);
+        dueText(x, 1, 0);
+    }
+
+    private static void dueText(Leadchapel x, int book, int page) {
+        Checks.due("the only word", 1, x.line(book, page, 0, 0));
+        Checks.due("its first letter", 0, x.place(book, page, 0, 1));
+        Checks.due("its last letter", 1, x.place(book, page, 1, 1));
+    }
+
     /** Promise 43. */
     private static void follows() {
         Leadchapel x = house(10, 2, 0);
@@ -488,6 +548,7 @@ public final class BooksAndPagesTests {
         book();
         copy();
         linesAndPages();
+        allWordsOnOnePage();
         tooMuchCopy();
         fillingOut();
         likedForms();
@@ -499,6 +560,7 @@ public final class BooksAndPagesTests {
         refused();
         follow();
         followForms();
+        followOneWord();
         follows();
         Checks.end();
     }

@@ -207,6 +207,18 @@ public final class FormesAndPressesTests {
         Checks.refuses(x, "correct of a GONE forme", Checks.STATE, () -> x.correct(0, 0, 0));
     }
 
+    private static void correctInAnotherBook() {
+        Leadchapel x = house(2);
+        x.book(2, 1, 10, 1, 2);
+        Checks.copy(x, 1, "a/b");
+        setAll(x, 1, 4);
+        x.lock(1, 1, 2);
+        Checks.due("where a piece is", 201, x.piece(x.place(1, 1, 0, 0), 2));
+        Checks.due("correct", 0, x.correct(1, 1, 0));
+        Checks.due("where the other one is", 201, x.piece(x.place(1, 1, 0, 0), 2));
+        Checks.refuses(x, "correct of a page whose forme is OPEN", Checks.STATE, () -> x.correct(1, 0, 0));
+    }
+
     /** A correction takes from the box of the wanted sort alone, and turns nothing. */
     private static void correctTurned() {
         Leadchapel x = new Leadchapel();
@@ -274,6 +286,22 @@ public final class FormesAndPressesTests {
         Checks.due("a free skeleton", 32, x.page(1, 0, 8));
     }
 
+    private static void putTurnedAway() {
+        Leadchapel x = new Leadchapel();
+        x.cast(Checks.sort('b'), 1);
+        x.hand(0, 0, 0);
+        x.book(2, 1, 10, 1, 2);
+        Checks.copy(x, 0, "q");
+        setAll(x, 0, 4);
+        x.lock(0, 0, 0);
+        x.print(0, 0, 0);
+        x.pass(3);
+        Checks.due("turned", 1, x.place(0, 0, 0, 2));
+        Checks.due("put away", 1, x.putAway(0, 0, 0));
+        Checks.due("no piece that is turned", 0, x.place(0, 0, 0, 2));
+        Checks.due("in the box of its sort", 0, x.box(Checks.sort('b'), 0));
+    }
+
     /** Promise 44. */
     private static void account() {
         Leadchapel x = house(3);
@@ -305,8 +333,10 @@ public final class FormesAndPressesTests {
         lastHour();
         threePresses();
         correct();
+        correctInAnotherBook();
         correctTurned();
         putAway();
+        putTurnedAway();
         account();
         Checks.end();
     }

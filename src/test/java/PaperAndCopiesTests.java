@@ -82,6 +82,7 @@ public final class PaperAndCopiesTests {
         }
         x.putAway(0, 2, 0);
         x.lay(0, 0, 1);
+        x.lay(0, 0, 0);
         x.lay(0, 0, 2);
         Checks.refuses(x, "bind of no book", Checks.INDEX, () -> x.bind(1));
         Checks.refuses(x, "state ahead of bind", Checks.STATE, () -> x.state(0, 0, 0));
@@ -113,6 +114,34 @@ public final class PaperAndCopiesTests {
         }
         x.bind(0);
         return x;
+    }
+
+    /** Each sheet has its own heap, and its own forme that was printed first. */
+    private static void statesOfTwoSheets() {
+        Leadchapel x = new Leadchapel();
+        x.cast(0, 9);
+        x.hand(0, 0, 0);
+        x.book(4, 2, 10, 1, 4);
+        Checks.copy(x, 0, "a/a/a/a/a/a/a/a/a/a/a/a/a/a/a/a");
+        for (int page = 0; page < 16; page++) {
+            x.set(0, page, 0);
+        }
+        x.cast(0, 9);
+        int[] pageOf = {0, 1, 8, 9};
+        for (int forme : new int[] {3, 0, 1, 2}) {
+            x.lock(0, forme, forme);
+            x.print(0, 0, forme);
+            x.pass(4);
+            Checks.due("correct", 1, x.correct(0, pageOf[forme], 0));
+            x.pass(1);
+        }
+        x.bind(0);
+        for (int page = 0; page < 16; page++) {
+            int due = "0110011010011001".charAt(page) - '0';
+            Checks.due("state of page " + page + " in copy 0", due, x.state(0, 0, page));
+            Checks.due("state of page " + page + " in copy 1", 0, x.state(0, 1, page));
+            Checks.due("state of page " + page + " in copy 3", 1 - due, x.state(0, 3, page));
+        }
     }
 
     /** Promises 32 and 35. */
@@ -290,6 +319,7 @@ public final class PaperAndCopiesTests {
     public static void main(String[] args) {
         paperAndMarks();
         layAndBind();
+        statesOfTwoSheets();
         statesAndAlike();
         exchangeCancelMadeUp();
         notBound();

@@ -54,8 +54,8 @@ public final class ScholarTests {
         x.wear(0);
         x.wear(1);
         bringThrough(x, 0, 3);
-        dueOrders(x, 12);
         dueAhead(x, 2, 0, 1);
+        dueOrders(x, 12);
         dueAhead(x, 2, 1, 0);
         x.wear(0);
         bringThrough(x, 3, 4);
@@ -66,6 +66,10 @@ public final class ScholarTests {
         dueAhead(x, 0, 1, 1);
         dueAhead(x, 0, 3, 1);
         dueAhead(x, 3, 1, 0);
+        x.book(2, 2, 10, 1, 2);
+        Checks.due("orders of another book", 24, x.orders(1));
+        Checks.due("ahead in another book", 0, x.ahead(1, 2, 0));
+        dueOrders(x, 2);
         Checks.due("one piece, and the skeleton", 1001, x.shared(0, 2, 0));
         Checks.due("the other way", 1001, x.shared(0, 0, 2));
         Checks.due("two pieces, and another skeleton", 2, x.shared(0, 0, 3));
@@ -73,13 +77,13 @@ public final class ScholarTests {
         Checks.refuses(x, "shared with itself", Checks.ARGUMENT, () -> x.shared(0, 1, 1));
         Checks.refuses(x, "shared with forme 4", Checks.INDEX, () -> x.shared(0, 1, 4));
         Checks.refuses(x, "shared of forme -1", Checks.INDEX, () -> x.shared(0, -1, -1));
-        Checks.refuses(x, "shared of no book", Checks.INDEX, () -> x.shared(1, 0, 1));
+        Checks.refuses(x, "shared of no book", Checks.INDEX, () -> x.shared(2, 0, 1));
         Checks.refuses(x, "ahead of itself", Checks.ARGUMENT, () -> x.ahead(0, 1, 1));
         Checks.refuses(x, "ahead of forme 4", Checks.INDEX, () -> x.ahead(0, 1, 4));
         Checks.refuses(x, "forme 4 ahead of itself", Checks.INDEX, () -> x.ahead(0, 4, 4));
         Checks.refuses(x, "forme -1 ahead", Checks.INDEX, () -> x.ahead(0, -1, 0));
-        Checks.refuses(x, "ahead in no book", Checks.INDEX, () -> x.ahead(1, 0, 1));
-        Checks.refuses(x, "orders of no book", Checks.INDEX, () -> x.orders(1));
+        Checks.refuses(x, "ahead in no book", Checks.INDEX, () -> x.ahead(2, 0, 1));
+        Checks.refuses(x, "orders of no book", Checks.INDEX, () -> x.orders(2));
         Checks.refuses(x, "orders anew of no book", Checks.INDEX, () -> x.ordersAnew(-1));
     }
 
@@ -189,6 +193,18 @@ public final class ScholarTests {
         Checks.due("a line that ended ahead of a word", 1, pages(10, 2, "do abcdefgh/do", 0, 1).hands(0));
         Checks.due("lines of a page", 2, pages(10, 2, "do/ab/doe/do", 0, 1).hands(0));
         crowdedHands();
+        handsOfTwoBooks();
+    }
+
+    private static void handsOfTwoBooks() {
+        Leadchapel x = pages(10, 1, "do/do", 0, 1);
+        x.book(2, 1, 10, 1, 2);
+        Checks.copy(x, 1, "do/do");
+        x.set(1, 0, 0);
+        x.set(1, 1, 0);
+        Checks.due("hands of one book", 2, x.hands(0));
+        Checks.due("hands of the other one", 1, x.hands(1));
+        Checks.due("hands of the first one again", 2, x.hands(0));
     }
 
     private static void crowdedHands() {
@@ -262,6 +278,16 @@ public final class ScholarTests {
         Checks.due("when it is DONE it is", 1, z.presses(0));
     }
 
+    private static void pressesAreRoundedUp() {
+        Leadchapel x = printable(1, 2);
+        x.men(0, 1);
+        x.men(1, 1);
+        x.print(0, 0, 0);
+        x.print(1, 0, 2);
+        x.pass(3);
+        Checks.due("four hours in three", 2, x.presses(0));
+    }
+
     private static void pressesAndHolidays() {
         Leadchapel x = printable(1, 2);
         x.pass(59);
@@ -286,6 +312,7 @@ public final class ScholarTests {
         noWearAndMoreFormes();
         hands();
         presses();
+        pressesAreRoundedUp();
         pressesAndHolidays();
         Checks.end();
     }
