@@ -1659,7 +1659,6 @@ public final class Leadchapel {
             }
             for (int page = 0; page < pages; page++) {
                 unlike[page] = 0;
-                parts[page] = 0;
                 for (int other = 0; other < pages; other++) {
                     if (other != page && (brief[page] & full[other] | full[page] & brief[other]) != 0) {
                         unlike[page] |= 1 << other;

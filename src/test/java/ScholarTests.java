@@ -116,11 +116,16 @@ public final class ScholarTests {
         Checks.due("formes that were not locked share no skeleton", 0, y.shared(0, 2, 3));
     }
 
-    /** Formes are ahead of others by one that is between. */
+    /** Formes are ahead of others by one that is between, be this the first one of the book or another. */
     private static void aheadByOthers() {
-        Leadchapel x = house("aaaa/aaaa/bbbb/aaaa/bbbb/aaaa/aaaa/bbbb");
+        aheadByOther("aaaa/aaaa/bbbb/aaaa/bbbb/aaaa/aaaa/bbbb", 0, 1);
+        aheadByOther("aaaa/aaaa/aaaa/bbbb/bbbb/aaaa/aaaa/bbbb", 1, 0);
+    }
+
+    private static void aheadByOther(String copy, int first, int between) {
+        Leadchapel x = house(copy);
         x.wear(0);
-        bringThrough(x, 0, 0);
+        bringThrough(x, first, 0);
         for (int piece : new int[] {0, 8, 9, 10, 11, 12, 13, 14, 15}) {
             x.wear(piece);
         }
@@ -128,21 +133,17 @@ public final class ScholarTests {
             x.wear(piece);
             x.wear(piece);
         }
-        setAndLock(x, 1, 1);
-        x.print(0, 0, 1);
-        x.pass(2);
-        x.putAway(0, 1, 0);
+        bringThrough(x, between, 1);
         for (int piece = 8; piece < 16; piece++) {
             x.wear(piece);
         }
         bringThrough(x, 2, 2);
-        Checks.due("nothing shared", 0, x.shared(0, 0, 2));
-        int both = x.shared(0, 0, 1);
-        Checks.due("pieces shared by the first two", 1, both);
-        dueAhead(x, 0, 1, 1);
-        dueAhead(x, 1, 2, 1);
-        dueAhead(x, 0, 2, 1);
-        dueAhead(x, 0, 3, 0);
+        Checks.due("nothing shared", 0, x.shared(0, first, 2));
+        Checks.due("the piece that the first two share", 1, x.shared(0, first, between));
+        dueAhead(x, first, between, 1);
+        dueAhead(x, between, 2, 1);
+        dueAhead(x, first, 2, 1);
+        dueAhead(x, first, 3, 0);
         dueOrders(x, 4);
     }
 
@@ -193,7 +194,25 @@ public final class ScholarTests {
         Checks.due("a line that ended ahead of a word", 1, pages(10, 2, "do abcdefgh/do", 0, 1).hands(0));
         Checks.due("lines of a page", 2, pages(10, 2, "do/ab/doe/do", 0, 1).hands(0));
         crowdedHands();
+        handsInARing();
         handsOfTwoBooks();
+    }
+
+    /** Six pages, each unlike two others, so that the first two pages, which are alike, are by two hands all the same. */
+    private static void handsInARing() {
+        Leadchapel x = new Leadchapel();
+        for (String pair : new String[] {"a ab", "c cd", "e ef", "g gh", "i ij", "k kl"}) {
+            Checks.spelling(x, pair);
+        }
+        x.hand(0, 0, 0);
+        x.hand(63, 0, 0);
+        x.book(4, 1, 24, 1, 2);
+        Checks.copy(x, 0, "k a/e g/a c/c e/g i/i k");
+        int[] by = {0, 1, 1, 0, 0, 1};
+        for (int page = 0; page < 6; page++) {
+            x.set(0, page, by[page]);
+        }
+        Checks.due("hands in a ring", 2, x.hands(0));
     }
 
     private static void handsOfTwoBooks() {
