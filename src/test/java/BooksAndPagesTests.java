@@ -6,8 +6,8 @@ public final class BooksAndPagesTests {
     }
 
     /** A house with 9 pieces of each letter, the spellings do and doe, go and gooee, and a book of four pages. */
-    private static Leadchapel house(int measure, int lines, int... hands) {
-        Leadchapel x = new Leadchapel();
+    private static House house(int measure, int lines, int... hands) {
+        House x = new House();
         Checks.castAll(x, ALL, 9);
         Checks.spelling(x, "do doe");
         Checks.spelling(x, "go gooee");
@@ -18,7 +18,7 @@ public final class BooksAndPagesTests {
         return x;
     }
 
-    private static void duePage(Leadchapel x, int page, int words, int through, int crowded, int leftOut, int lines) {
+    private static void duePage(House x, int page, int words, int through, int crowded, int leftOut, int lines) {
         String what = "page " + page + ", ";
         Checks.due(what + "words", words, x.page(0, page, 2));
         Checks.due(what + "through", through, x.page(0, page, 3));
@@ -27,7 +27,7 @@ public final class BooksAndPagesTests {
         Checks.due(what + "lines", lines, x.page(0, page, 7));
     }
 
-    private static void dueLine(Leadchapel x, int page, int line, int... told) {
+    private static void dueLine(House x, int page, int line, int... told) {
         for (int what = 0; what < told.length; what++) {
             Checks.due("line " + page + " " + line + " " + what, told[what], x.line(0, page, line, what));
         }
@@ -35,7 +35,7 @@ public final class BooksAndPagesTests {
 
     /** Promise 11. */
     private static void book() {
-        Leadchapel x = new Leadchapel();
+        House x = new House();
         for (int format : new int[] {-2, 0, 1, 3, 5, 6, 7, 9, 16}) {
             Checks.refuses(x, "format " + format, Checks.ARGUMENT, () -> x.book(format, 1, 10, 1, 2));
         }
@@ -58,7 +58,7 @@ public final class BooksAndPagesTests {
             Checks.due("the last page of 16", book == 2 ? 0 : book == 1 ? 2 : 6, x.page(book, 15, 0));
             Checks.refuses(x, "page 16", Checks.INDEX, () -> x.page(its, 16, 0));
         }
-        Leadchapel y = new Leadchapel();
+        House y = new House();
         y.book(2, 1, 10, 1, 2);
         y.book(4, 1, 10, 1, 2);
         Checks.refuses(y, "page 4 of 4", Checks.INDEX, () -> y.page(0, 4, 0));
@@ -67,7 +67,7 @@ public final class BooksAndPagesTests {
 
     /** Promise 12. */
     private static void copy() {
-        Leadchapel x = house(10, 2, 0);
+        House x = house(10, 2, 0);
         Checks.refuses(x, "copy of no text", Checks.ARGUMENT, () -> x.copy(0));
         Checks.type(x, "ab ");
         Checks.refuses(x, "copy of no whole text", Checks.ARGUMENT, () -> x.copy(0));
@@ -104,7 +104,7 @@ public final class BooksAndPagesTests {
 
     /** Promises 15 to 17: where lines and pages end. */
     private static void linesAndPages() {
-        Leadchapel x = house(10, 3, 0);
+        House x = house(10, 3, 0);
         Checks.copy(x, 0, "abc def gh/ij k");
         Checks.due("set", 0, x.set(0, 0, 0));
         duePage(x, 0, 5, 5, 0, 0, 2);
@@ -117,7 +117,7 @@ public final class BooksAndPagesTests {
         duePage(x, 1, 0, 5, 0, 0, 0);
         dueLine(x, 1, 0, -1, -1, -1, -1, -1);
 
-        Leadchapel y = house(10, 2, 0);
+        House y = house(10, 2, 0);
         Checks.copy(y, 0, "abcde fghij kl m");
         Checks.copy(y, 0, "n o");
         y.set(0, 0, 0);
@@ -131,7 +131,7 @@ public final class BooksAndPagesTests {
 
     /** As many words as a copy has on one page. */
     private static void allWordsOnOnePage() {
-        Leadchapel x = new Leadchapel();
+        House x = new House();
         x.cast(0, 40);
         x.cast(0, 20);
         x.hand(0, 0, 0);
@@ -148,7 +148,7 @@ public final class BooksAndPagesTests {
 
     /** The last line of a page, and copy that is more than all pages hold. */
     private static void tooMuchCopy() {
-        Leadchapel x = house(10, 1, 0);
+        House x = house(10, 1, 0);
         Checks.copy(x, 0, "abcd efgh ijkl mnop q r/s/t/u");
         for (int page = 0; page < 4; page++) {
             x.set(0, page, 0);
@@ -163,13 +163,13 @@ public final class BooksAndPagesTests {
 
     /** Promise 17: blanks and spellings that fill lines out. */
     private static void fillingOut() {
-        Leadchapel x = house(14, 6, 0);
+        House x = house(14, 6, 0);
         Checks.copy(x, 0, "ab c d efghijkl abc d e fghijkl");
         x.set(0, 0, 0);
         dueLine(x, 0, 0, 3, 2, 4, 1, 0);
         dueLine(x, 0, 1, 3, 5, 0, 1, 0);
 
-        Leadchapel y = house(10, 6, 0);
+        House y = house(10, 6, 0);
         Checks.copy(y, 0, "ab do efghijkl go do hijklmno");
         Checks.copy(y, 0, "do go ijklmnop do/go");
         y.set(0, 0, 0);
@@ -185,7 +185,7 @@ public final class BooksAndPagesTests {
 
     /** Forms that a hand likes, and short ones where these do not fit. */
     private static void likedForms() {
-        Leadchapel x = house(10, 3, 1);
+        House x = house(10, 3, 1);
         Checks.copy(x, 0, "abcdefg do xyz do doe/go gooee");
         x.set(0, 0, 0);
         dueLine(x, 0, 0, 2, 1, 0, 1, 0);
@@ -193,14 +193,14 @@ public final class BooksAndPagesTests {
         dueLine(x, 0, 2, 2, 6, 5, 0, 0);
         Checks.due("places for the forms that are set", 9 + 8 + 4, x.page(0, 0, 6));
 
-        Leadchapel z = house(10, 1, 1);
+        House z = house(10, 1, 1);
         Checks.copy(z, 0, "abcdef do/abcdefg do");
         z.set(0, 0, 0);
         dueLine(z, 0, 0, 2, 1, 0, 0, 1);
         z.set(0, 1, 0);
         dueLine(z, 1, 0, 2, 3, 0, 0, 0);
 
-        Leadchapel y = house(24, 1, 0, 3);
+        House y = house(24, 1, 0, 3);
         Checks.copy(y, 0, "doe gooee/do go");
         y.set(0, 0, 0);
         dueLine(y, 0, 0, 2, 1, 19, 0, 0);
@@ -212,7 +212,7 @@ public final class BooksAndPagesTests {
     private static void castOff() {
         int[][] all = {{100, 3, 5, 5}, {50, 2, 3, 5}, {150, 5, 5, 5}, {79, 2, 4, 5}, {80, 2, 5, 5}, {89, 2, 5, 5}, {90, 3, 5, 5}};
         for (int[] due : all) {
-            Leadchapel x = house(10, 1, 0);
+            House x = house(10, 1, 0);
             Checks.copy(x, 0, "abc def gh ij k");
             Checks.due("cast off by " + due[0], due[3], x.castOff(0, due[0]));
             for (int page = 3; page >= 0; page--) {
@@ -224,13 +224,13 @@ public final class BooksAndPagesTests {
                 Checks.due("the part of page " + page + " by " + due[0], due[page], first);
             }
         }
-        Leadchapel y = house(11, 1, 0);
+        House y = house(11, 1, 0);
         Checks.copy(y, 0, "ab ab ab ab ab ab ab ab ab ab");
         Checks.due("a page holds rounded down", 6, y.castOff(0, 55));
-        Leadchapel z = house(10, 2, 0);
+        House z = house(10, 2, 0);
         Checks.copy(z, 0, "do doe do doe do doe");
         Checks.due("units are of words as told", 6, z.castOff(0, 60));
-        Leadchapel v = house(10, 1, 0);
+        House v = house(10, 1, 0);
         Checks.copy(v, 0, "abcd abcd abcd abcd abcd abcd");
         Checks.due("the last part of four", 3, v.castOff(0, 50));
         for (int page = 0; page < 4; page++) {
@@ -241,7 +241,7 @@ public final class BooksAndPagesTests {
     }
 
     private static void castOffRefused() {
-        Leadchapel x = house(10, 1, 0);
+        House x = house(10, 1, 0);
         Checks.refuses(x, "cast off without copy", Checks.STATE, () -> x.castOff(0, 100));
         Checks.refuses(x, "49 percent without copy", Checks.ARGUMENT, () -> x.castOff(0, 49));
         Checks.copy(x, 0, "ab cd");
@@ -259,7 +259,7 @@ public final class BooksAndPagesTests {
 
     /** Crowded pages. */
     private static void crowded() {
-        Leadchapel x = house(10, 1, 1);
+        House x = house(10, 1, 1);
         Checks.copy(x, 0, "do ab cd ef gh ij");
         x.castOff(0, 150);
         x.set(0, 0, 0);
@@ -268,21 +268,21 @@ public final class BooksAndPagesTests {
         x.set(0, 1, 0);
         duePage(x, 1, 1, 6, 0, 0, 1);
 
-        Leadchapel y = house(10, 1, 1);
+        House y = house(10, 1, 1);
         Checks.copy(y, 0, "do abcdefg ab");
         y.castOff(0, 110);
         y.set(0, 0, 0);
         duePage(y, 0, 2, 2, 1, 0, 1);
         dueLine(y, 0, 0, 2, 1, 0, 0, 0);
 
-        Leadchapel z = house(10, 1, 0);
+        House z = house(10, 1, 0);
         Checks.copy(z, 0, "a do/ab bcd");
         z.castOff(0, 150);
         z.set(0, 0, 0);
         duePage(z, 0, 2, 2, 1, 2, 1);
         dueLine(z, 0, 0, 2, 1, 6, 0, 0);
 
-        Leadchapel w = house(10, 1, 0);
+        House w = house(10, 1, 0);
         Checks.copy(w, 0, "a do bcdefgh ijkl");
         w.castOff(0, 150);
         w.set(0, 0, 0);
@@ -290,7 +290,7 @@ public final class BooksAndPagesTests {
     }
 
     private static void dueSkipped(String text, int skips, int words, int through, int lines, int last) {
-        Leadchapel x = new Leadchapel();
+        House x = new House();
         x.hand(0, 0, skips);
         x.book(2, 1, 24, 3, 2);
         Checks.copy(x, 0, text);
@@ -319,7 +319,7 @@ public final class BooksAndPagesTests {
         dueSkipped("ab/ab ab/ab ab/ab", 9, 5, 5, 3, 0);
         dueSkipped("ab/ab ab/ab ab/ab", 5, 5, 6, 3, 0);
 
-        Leadchapel x = house(10, 1, 0);
+        House x = house(10, 1, 0);
         x.hand(0, 0, 2);
         Checks.copy(x, 0, "a x a/b y b c/do doe z");
         x.set(0, 0, 1);
@@ -333,14 +333,14 @@ public final class BooksAndPagesTests {
 
     /** Chances are those of the part, and are counted anew for a crowded page. */
     private static void skipsInParts() {
-        Leadchapel x = house(10, 1, 0);
+        House x = house(10, 1, 0);
         x.hand(0, 0, 1);
         Checks.copy(x, 0, "ab cd ab ef");
         x.castOff(0, 50);
         x.set(0, 0, 1);
         duePage(x, 0, 2, 2, 0, 0, 1);
 
-        Leadchapel y = house(10, 1, 0);
+        House y = house(10, 1, 0);
         y.hand(0, 0, 2);
         Checks.copy(y, 0, "a a bcde bcdefg hi a x a y");
         y.castOff(0, 150);
@@ -352,7 +352,7 @@ public final class BooksAndPagesTests {
 
     /** Promise 18: places, and what fills them. */
     private static void places() {
-        Leadchapel x = new Leadchapel();
+        House x = new House();
         x.cast(13, 1);
         x.cast(20, 3);
         x.cast(26, 1);
@@ -389,7 +389,7 @@ public final class BooksAndPagesTests {
         String wanted = "nubqdpmwf";
         String other = "unqbpdwmt";
         for (int i = 0; i < wanted.length(); i++) {
-            Leadchapel x = new Leadchapel();
+            House x = new House();
             x.hand(0, 0, 0);
             x.book(2, 1, 10, 1, 2);
             x.cast(Checks.sort(other.charAt(i)), 2);
@@ -401,7 +401,7 @@ public final class BooksAndPagesTests {
     }
 
     private static void joinedPlaces() {
-        Leadchapel x = new Leadchapel();
+        House x = new House();
         x.hand(0, 0, 0);
         x.book(2, 1, 24, 1, 2);
         x.book(2, 1, 24, 1, 2);
@@ -431,7 +431,7 @@ public final class BooksAndPagesTests {
 
     /** Promises 15 to 17: what is refused. */
     private static void refused() {
-        Leadchapel x = house(10, 1, 0);
+        House x = house(10, 1, 0);
         Checks.refuses(x, "set without copy", Checks.STATE, () -> x.set(0, 0, 0));
         Checks.refuses(x, "set by no hand, without copy", Checks.INDEX, () -> x.set(0, 0, 1));
         Checks.copy(x, 0, "ab");
@@ -464,7 +464,7 @@ public final class BooksAndPagesTests {
 
     /** Promise 13. */
     private static void follow() {
-        Leadchapel x = house(10, 2, 3, 0);
+        House x = house(10, 2, 3, 0);
         x.book(2, 1, 24, 6, 2);
         Checks.copy(x, 0, "do go/ab cd doe efghijkl do/m");
         Checks.refuses(x, "follow a book without pages", Checks.STATE, () -> x.follow(1, 0));
@@ -494,7 +494,7 @@ public final class BooksAndPagesTests {
 
     /** Promise 13: the words are told in the forms that are on the pages. */
     private static void followForms() {
-        Leadchapel x = house(10, 1, 3, 0);
+        House x = house(10, 1, 3, 0);
         x.book(2, 1, 10, 1, 2);
         Checks.copy(x, 0, "do go/do go/m");
         x.set(0, 0, 0);
@@ -509,7 +509,7 @@ public final class BooksAndPagesTests {
     }
 
     private static void followOneWord() {
-        Leadchapel x = house(10, 1, 0);
+        House x = house(10, 1, 0);
         x.book(2, 1, 10, 1, 2);
         Checks.copy(x, 0, "ab/c");
         x.set(0, 0, 0);
@@ -519,7 +519,7 @@ public final class BooksAndPagesTests {
         dueText(x, 1, 0);
     }
 
-    private static void dueText(Leadchapel x, int book, int page) {
+    private static void dueText(House x, int book, int page) {
         Checks.due("the only word", 1, x.line(book, page, 0, 0));
         Checks.due("its first letter", 0, x.place(book, page, 0, 1));
         Checks.due("its last letter", 1, x.place(book, page, 1, 1));
@@ -527,7 +527,7 @@ public final class BooksAndPagesTests {
 
     /** Promise 43. */
     private static void follows() {
-        Leadchapel x = house(10, 2, 0);
+        House x = house(10, 2, 0);
         x.book(2, 1, 10, 6, 2);
         x.book(2, 1, 10, 6, 2);
         Checks.copy(x, 0, "ab do/ef/gh/go");

@@ -1,5 +1,10 @@
-import java.util.function.IntSupplier;
+import java.util.ArrayList;
+import java.util.HashSet;
+import java.util.List;
+import java.util.Set;
 import java.util.function.IntUnaryOperator;
+import java.util.function.Supplier;
+import java.util.function.ToIntFunction;
 
 /** What the promise tests share: answers that are due, exceptions that are due, and a house told whole. */
 final class Checks {
@@ -7,24 +12,50 @@ final class Checks {
     static final Class<IllegalStateException> STATE = IllegalStateException.class;
     static final Class<IndexOutOfBoundsException> INDEX = IndexOutOfBoundsException.class;
 
+    private static final int ABSENT = -99;
+    private static final Set<Integer> PROMISES = new HashSet<>();
+
+    private static String sentence = "";
     private static int checked;
     private static int wrong;
+    private static House lastTold;
+    private static int callsLastTold;
+    private static String told;
 
     private Checks() {
+    }
+
+    /** A test of its own for a sentence of the document, told by the number of the promise and its words. */
+    static void holds(int promise, String words, Runnable test) {
+        sentence = "promise " + promise + ", \"" + words + "\": ";
+        PROMISES.add(promise);
+        int checkedAhead = checked;
+        try {
+            test.run();
+        } catch (RuntimeException e) {
+            fail("threw " + e);
+        }
+        if (checked == checkedAhead) {
+            fail("nothing is checked");
+        }
+        sentence = "";
+    }
+
+    private static void fail(String what) {
+        wrong++;
+        System.out.println(sentence + what);
     }
 
     static void due(String what, long want, long got) {
         checked++;
         if (want != got) {
-            wrong++;
-            System.out.println(what + " answered " + got + ", due is " + want);
+            fail(what + " answered " + got + ", due is " + want);
         }
     }
 
     /** The call throws just this exception, and the house is as it was then. */
-    static void refuses(Leadchapel house, String what, Class<? extends RuntimeException> due, Runnable call) {
+    static void refuses(House house, String what, Class<? extends RuntimeException> due, Runnable call) {
         checked++;
-        String ahead = told(house);
         Class<?> thrown = null;
         try {
             call.run();
@@ -32,13 +63,51 @@ final class Checks {
             thrown = e.getClass();
         }
         if (thrown != due) {
-            wrong++;
-            System.out.println(what + " threw " + thrown + ", due is " + due);
+            fail(what + " threw " + thrown + ", due is " + due);
+        } else if (!toldAnew(house).equals(told(house::againRefused))) {
+            fail(what + " was refused, but changed something");
         }
-        if (!ahead.equals(told(house))) {
-            wrong++;
-            System.out.println(what + " changed something");
+    }
+
+    /** The values just beyond a range, and the least and the greatest one. */
+    static int[] beyond(int least, int most) {
+        return new int[] {Integer.MIN_VALUE, least - 1, most + 1, Integer.MAX_VALUE};
+    }
+
+    /** Each value beyond the range is refused by a house made for it. */
+    static void refusesBeyond(int least, int most, Class<? extends RuntimeException> due, Supplier<House> made,
+            Taking call) {
+        House house = made.get();
+        for (int value : beyond(least, most)) {
+            refuses(house, "the value " + value, due, () -> call.give(house, value));
         }
+    }
+
+    /** Each value of the range is taken by a house made for it. */
+    static void takes(int least, int most, Supplier<House> made, Taking call) {
+        for (int value = least; value <= most; value++) {
+            checked++;
+            try {
+                call.give(made.get(), value);
+            } catch (RuntimeException e) {
+                fail("the value " + value + " threw " + e);
+            }
+        }
+    }
+
+    /** A call with a value in it. */
+    interface Taking {
+        void give(House house, int value);
+    }
+
+    /** Each promise of the range has a test of its own. */
+    static void endOf(int first, int last) {
+        for (int promise = first; promise <= last; promise++) {
+            if (!PROMISES.contains(promise)) {
+                fail("promise " + promise + " has no test");
+            }
+        }
+        end();
     }
 
     static void end() {
@@ -49,7 +118,7 @@ final class Checks {
     }
 
     /** Types a text of any length. */
-    static int type(Leadchapel house, String text) {
+    static int type(House house, String text) {
         int typed = 0;
         for (int from = 0; from < text.length(); from += 8) {
             String part = text.substring(from, Math.min(from + 8, text.length()));
@@ -66,12 +135,12 @@ final class Checks {
         return characters;
     }
 
-    static int copy(Leadchapel house, int book, String text) {
+    static int copy(House house, int book, String text) {
         type(house, text);
         return house.copy(book);
     }
 
-    static int spelling(Leadchapel house, String pair) {
+    static int spelling(House house, String pair) {
         type(house, pair);
         return house.spelling();
     }
@@ -81,17 +150,26 @@ final class Checks {
     }
 
     /** Casts so many pieces of each letter. */
-    static void castAll(Leadchapel house, String letters, int many) {
+    static void castAll(House house, String letters, int many) {
         for (char letter : letters.toCharArray()) {
             house.cast(sort(letter), many);
         }
     }
 
     /** A line as it is printed in a copy. */
-    static String printed(Leadchapel house, int book, int copy, int page, int line) {
+    static String printed(House house, int book, int copy, int page, int line) {
+        return printed(call -> call.applyAsInt(house), book, copy, page, line);
+    }
+
+    private static String printed(ToIntFunction<ToIntFunction<House>> ask, int book, int copy, int page, int line) {
         StringBuilder text = new StringBuilder();
-        for (int at = 0; house.character(book, copy, page, line, at) != -1; at++) {
-            text.append((char) house.character(book, copy, page, line, at));
+        for (int at = 0; at < 64; at++) {
+            int place = at;
+            int sign = ask.applyAsInt(x -> x.character(book, copy, page, line, place));
+            if (sign == Leadchapel.NONE) {
+                break;
+            }
+            text.append((char) sign);
         }
         return text.toString();
     }
@@ -99,98 +177,149 @@ final class Checks {
     static void dueText(String what, String want, String got) {
         checked++;
         if (!want.equals(got)) {
-            wrong++;
-            System.out.println(what + " printed '" + got + "', due is '" + want + "'");
+            fail(what + " printed '" + got + "', due is '" + want + "'");
         }
     }
 
-    private static boolean isThere(IntSupplier call) {
-        try {
-            call.getAsInt();
-            return true;
-        } catch (IndexOutOfBoundsException | IllegalStateException e) {
-            return false;
+    private static String toldAnew(House house) {
+        if (lastTold != house || callsLastTold != house.callsAnswered()) {
+            told = told(house::again);
+            lastTold = house;
+            callsLastTold = house.callsAnswered();
         }
+        return told;
     }
 
-    private static void tell(StringBuilder all, int end, IntUnaryOperator call) {
-        for (int what = 0; what < end; what++) {
-            all.append(call.applyAsInt(what)).append(' ');
-        }
-        all.append('\n');
+    /** All that a house answers; it is made anew whenever it was given as many calls as are promised. */
+    private static String told(Supplier<House> made) {
+        return new Teller(made).all.toString();
     }
 
-    private static String told(Leadchapel x) {
-        StringBuilder all = new StringBuilder();
-        all.append(x.fault()).append(' ').append(x.hour()).append('\n');
-        for (int account = 0; account < 5; account++) {
-            int what = account;
+    private static final class Teller {
+        final StringBuilder all = new StringBuilder();
+        private final Supplier<House> made;
+        private House now;
+
+        Teller(Supplier<House> made) {
+            this.made = made;
+            now = made.get();
+            if (now.callsLeft() < 20) {
+                throw new AssertionError("a test makes too many calls ahead of one that is refused");
+            }
+            tellHouse();
+            tellFuture();
+        }
+
+        private int ask(ToIntFunction<House> call) {
+            if (now.callsLeft() == 0) {
+                now = made.get();
+            }
+            return call.applyAsInt(now);
+        }
+
+        private int askIfThere(ToIntFunction<House> call) {
+            try {
+                return ask(call);
+            } catch (IndexOutOfBoundsException | IllegalStateException e) {
+                return ABSENT;
+            }
+        }
+
+        private void tell(int end, IntUnaryOperator call) {
+            for (int what = 0; what < end; what++) {
+                all.append(call.applyAsInt(what)).append(' ');
+            }
+            all.append('\n');
+        }
+
+        private void tellHouse() {
+            all.append(ask(House::fault)).append(' ').append(ask(House::hour)).append('\n');
+            for (int what = 0; what < 5; what++) {
+                int account = what;
+                tell(4, who -> askIfThere(x -> x.account(account, who)));
+            }
+            for (int sort = 0; sort < 28; sort++) {
+                int box = sort;
+                List<Integer> pieces = new ArrayList<>();
+                for (int at = 0; at < 401 && (at == 0 || pieces.get(at - 1) >= 0); at++) {
+                    int place = at;
+                    pieces.add(ask(x -> x.box(box, place)));
+                }
+                all.append(pieces).append('\n');
+            }
+            for (int i = 0; i < 401; i++) {
+                int piece = i;
+                if (askIfThere(x -> x.piece(piece, 0)) == ABSENT) {
+                    break;
+                }
+                tell(3, what -> ask(x -> x.piece(piece, what)));
+            }
             for (int i = 0; i < 4; i++) {
-                int who = i;
-                if (isThere(() -> x.account(what, who))) {
-                    all.append(x.account(what, who)).append(' ');
+                int book = i;
+                if (askIfThere(x -> x.page(book, 0, 0)) != ABSENT) {
+                    tellBook(book);
                 }
             }
         }
-        for (int i = 0; i < 400; i++) {
-            int piece = i;
-            if (!isThere(() -> x.piece(piece, 0))) {
-                break;
-            }
-            tell(all, 3, what -> x.piece(piece, what));
-        }
-        for (int sort = 0; sort < 28; sort++) {
-            for (int place = 0; x.box(sort, place) >= 0; place++) {
-                all.append(x.box(sort, place)).append(' ');
-            }
-        }
-        for (int i = 0; i < 3; i++) {
-            int book = i;
-            if (isThere(() -> x.page(book, 0, 0))) {
-                tellBook(all, x, book);
-            }
-        }
-        return all.toString();
-    }
 
-    private static void tellBook(StringBuilder all, Leadchapel x, int book) {
-        for (int i = 0; i < 16; i++) {
-            int page = i;
-            if (isThere(() -> x.page(book, page, 0))) {
-                tell(all, 9, what -> x.page(book, page, what));
-                for (int j = 0; j < x.page(book, page, 7); j++) {
-                    int line = j;
-                    tell(all, 5, what -> x.line(book, page, line, what));
+        private void tellBook(int book) {
+            for (int i = 0; i < 17; i++) {
+                int page = i;
+                if (askIfThere(x -> x.page(book, page, 0)) != ABSENT) {
+                    tell(9, what -> ask(x -> x.page(book, page, what)));
+                    for (int j = ask(x -> x.page(book, page, 7)); j > 0; j--) {
+                        int line = j - 1;
+                        tell(5, what -> ask(x -> x.line(book, page, line, what)));
+                    }
+                    for (int j = ask(x -> x.page(book, page, 6)); j > 0; j--) {
+                        int place = j - 1;
+                        tell(3, what -> ask(x -> x.place(book, page, place, what)));
+                    }
                 }
-                for (int j = 0; j < x.page(book, page, 6); j++) {
-                    int place = j;
-                    tell(all, 3, what -> x.place(book, page, place, what));
+            }
+            for (int i = 0; i < 9; i++) {
+                int forme = i;
+                if (askIfThere(x -> x.forme(book, forme, 0)) != ABSENT) {
+                    tell(5, what -> ask(x -> x.forme(book, forme, what)));
+                    tell(forme, other -> ask(x -> x.shared(book, other, forme)));
+                    tell(forme, other -> ask(x -> x.ahead(book, other, forme)));
+                }
+            }
+            all.append(ask(x -> x.orders(book))).append(' ').append(ask(x -> x.hands(book))).append(' ');
+            all.append(ask(x -> x.presses(book))).append(' ').append(ask(x -> x.follows(book, 0))).append('\n');
+            for (int i = 0; i < 25; i++) {
+                int copy = i;
+                if (askIfThere(x -> x.alike(book, copy)) != ABSENT) {
+                    tellCopy(book, copy);
                 }
             }
         }
-        for (int i = 0; i < 8; i++) {
-            int forme = i;
-            if (isThere(() -> x.forme(book, forme, 0))) {
-                tell(all, 5, what -> x.forme(book, forme, what));
-            }
-        }
-        all.append(x.orders(book)).append(' ').append(x.hands(book)).append(' ').append(x.presses(book)).append('\n');
-        for (int i = 0; i < 24; i++) {
-            int copy = i;
-            if (isThere(() -> x.alike(book, copy))) {
-                tellCopy(all, x, book, copy);
-            }
-        }
-    }
 
-    private static void tellCopy(StringBuilder all, Leadchapel x, int book, int copy) {
-        all.append(x.alike(book, copy)).append(' ').append(x.madeUp(book, copy)).append(' ');
-        for (int i = 0; i < 16; i++) {
-            int page = i;
-            if (isThere(() -> x.state(book, copy, page))) {
-                all.append(x.state(book, copy, page)).append(' ').append(x.mark(book, copy, page / 2)).append(' ');
-                for (int line = 0; line < x.page(book, page, 7); line++) {
-                    all.append(printed(x, book, copy, page, line)).append('\n');
+        private void tellCopy(int book, int copy) {
+            all.append(ask(x -> x.alike(book, copy))).append(' ').append(ask(x -> x.madeUp(book, copy))).append(' ');
+            for (int i = 0; i < 16; i++) {
+                int page = i;
+                if (askIfThere(x -> x.state(book, copy, page)) != ABSENT) {
+                    all.append(ask(x -> x.state(book, copy, page))).append(' ');
+                    all.append(ask(x -> x.mark(book, copy, page / 2))).append(' ');
+                    for (int line = 0; line < ask(x -> x.page(book, page, 7)); line++) {
+                        all.append(printed(this::ask, book, copy, page, line)).append('\n');
+                    }
+                }
+            }
+        }
+
+        /** What can't be asked, but shows in what comes: the tape, the men, and how far the presses are. */
+        private void tellFuture() {
+            now = made.get();
+            all.append(now.wipe()).append(' ');
+            for (int press = 0; press < 3; press++) {
+                all.append(now.men(press, 1)).append(' ');
+            }
+            for (int i = 0; i < 2; i++) {
+                all.append(askIfThere(x -> x.pass(1))).append(' ');
+                for (int press = 0; press < 3; press++) {
+                    all.append(now.account(2, press)).append(' ').append(now.account(3, press)).append(' ');
                 }
             }
         }

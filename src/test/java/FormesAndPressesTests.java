@@ -4,8 +4,8 @@ public final class FormesAndPressesTests {
     }
 
     /** A house with a book of four pages, "ab" on the first one, that are all set. */
-    private static Leadchapel house(int edition) {
-        Leadchapel x = new Leadchapel();
+    private static House house(int edition) {
+        House x = new House();
         Checks.castAll(x, "ab", 4);
         x.hand(0, 0, 0);
         x.book(2, 1, 10, 1, edition);
@@ -14,13 +14,13 @@ public final class FormesAndPressesTests {
         return x;
     }
 
-    private static void setAll(Leadchapel x, int book, int pages) {
+    private static void setAll(House x, int book, int pages) {
         for (int page = 0; page < pages; page++) {
             x.set(book, page, 0);
         }
     }
 
-    private static void dueForme(Leadchapel x, int forme, int... told) {
+    private static void dueForme(House x, int forme, int... told) {
         for (int what = 0; what < told.length; what++) {
             Checks.due("forme " + forme + ", " + what, told[what], x.forme(0, forme, what));
         }
@@ -28,7 +28,7 @@ public final class FormesAndPressesTests {
 
     /** Promises 16, 19 and 24. */
     private static void lock() {
-        Leadchapel x = new Leadchapel();
+        House x = new House();
         x.hand(0, 0, 0);
         x.book(4, 2, 10, 1, 3);
         x.book(2, 1, 10, 1, 3);
@@ -70,7 +70,7 @@ public final class FormesAndPressesTests {
 
     /** Promises 20 to 23. */
     private static void printAndPass() {
-        Leadchapel x = house(5);
+        House x = house(5);
         Checks.refuses(x, "print of an OPEN forme", Checks.STATE, () -> x.print(0, 0, 0));
         x.lock(0, 0, 0);
         x.lock(0, 1, 1);
@@ -118,7 +118,7 @@ public final class FormesAndPressesTests {
     }
 
     private static void holidays() {
-        Leadchapel x = house(3);
+        House x = house(3);
         x.lock(0, 0, 0);
         x.pass(58);
         x.print(0, 0, 0);
@@ -139,7 +139,7 @@ public final class FormesAndPressesTests {
     }
 
     private static void lastHour() {
-        Leadchapel x = new Leadchapel();
+        House x = new House();
         for (int i = 0; i < 71; i++) {
             x.pass(70);
         }
@@ -153,7 +153,7 @@ public final class FormesAndPressesTests {
 
     /** Presses work by rising numbers, each with its own men. */
     private static void threePresses() {
-        Leadchapel x = new Leadchapel();
+        House x = new House();
         x.hand(0, 0, 0);
         for (int book = 0; book < 3; book++) {
             x.book(2, 1, 10, 1, 2 + book);
@@ -173,7 +173,7 @@ public final class FormesAndPressesTests {
 
     /** Promise 25. */
     private static void correct() {
-        Leadchapel x = house(6);
+        House x = house(6);
         Checks.refuses(x, "correct in an OPEN forme", Checks.STATE, () -> x.correct(0, 0, 0));
         x.lock(0, 0, 0);
         x.lock(0, 1, 1);
@@ -208,7 +208,7 @@ public final class FormesAndPressesTests {
     }
 
     private static void correctInAnotherBook() {
-        Leadchapel x = house(2);
+        House x = house(2);
         x.book(2, 1, 10, 1, 2);
         Checks.copy(x, 1, "a/b");
         setAll(x, 1, 4);
@@ -221,7 +221,7 @@ public final class FormesAndPressesTests {
 
     /** A correction takes from the box of the wanted sort alone, and turns nothing. */
     private static void correctTurned() {
-        Leadchapel x = new Leadchapel();
+        House x = new House();
         x.hand(0, 0, 0);
         x.cast(Checks.sort('u'), 3);
         x.book(2, 1, 10, 1, 2);
@@ -243,7 +243,7 @@ public final class FormesAndPressesTests {
 
     /** Promises 10 and 26. */
     private static void putAway() {
-        Leadchapel x = new Leadchapel();
+        House x = new House();
         Checks.castAll(x, "ab", 3);
         x.cast(27, 1);
         x.hand(0, 0, 0);
@@ -287,7 +287,7 @@ public final class FormesAndPressesTests {
     }
 
     private static void putTurnedAway() {
-        Leadchapel x = new Leadchapel();
+        House x = new House();
         x.cast(Checks.sort('b'), 1);
         x.hand(0, 0, 0);
         x.book(2, 1, 10, 1, 2);
@@ -304,7 +304,7 @@ public final class FormesAndPressesTests {
 
     /** Promise 44. */
     private static void account() {
-        Leadchapel x = house(3);
+        House x = house(3);
         x.hand(0, 0, 0);
         Checks.due("taken", 2, x.account(0, 0));
         Checks.due("taken by another one", 0, x.account(0, 1));

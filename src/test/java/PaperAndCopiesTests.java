@@ -4,8 +4,8 @@ public final class PaperAndCopiesTests {
     }
 
     /** A house with a book of so many sheets of two leaves, with "ab" on the first page, all set and locked. */
-    private static Leadchapel house(int sheets, int edition) {
-        Leadchapel x = new Leadchapel();
+    private static House house(int sheets, int edition) {
+        House x = new House();
         Checks.castAll(x, "ab", 9);
         x.hand(0, 0, 0);
         x.book(2, sheets, 10, 1, edition);
@@ -20,7 +20,7 @@ public final class PaperAndCopiesTests {
     }
 
     /** Puts a forme on a press, and waits until it is DONE. */
-    private static void printAll(Leadchapel x, int forme) {
+    private static void printAll(House x, int forme) {
         x.print(0, 0, forme);
         for (int i = 0; i < 99 && x.forme(0, forme, 0) == Leadchapel.ON; i++) {
             x.pass(1);
@@ -29,7 +29,7 @@ public final class PaperAndCopiesTests {
 
     /** Promises 27 and 33. */
     private static void paperAndMarks() {
-        Leadchapel x = house(2, 3);
+        House x = house(2, 3);
         Checks.due("stock 0 at first", 0, x.paper(0));
         printAll(x, 1);
         Checks.due("taken of stock 0", 3, x.paper(0));
@@ -56,7 +56,7 @@ public final class PaperAndCopiesTests {
         Checks.refuses(x, "mark of copy -1", Checks.INDEX, () -> x.mark(0, -1, 0));
         Checks.refuses(x, "mark of no book", Checks.INDEX, () -> x.mark(1, 0, 0));
 
-        Leadchapel y = house(1, 2);
+        House y = house(1, 2);
         y.paper(2);
         y.paper(3);
         printAll(y, 0);
@@ -68,7 +68,7 @@ public final class PaperAndCopiesTests {
 
     /** Promises 28 and 29. */
     private static void layAndBind() {
-        Leadchapel x = house(2, 3);
+        House x = house(2, 3);
         Checks.refuses(x, "bind of what is not printed", Checks.STATE, () -> x.bind(0));
         Checks.refuses(x, "lay by the edition", Checks.ARGUMENT, () -> x.lay(0, 0, 3));
         Checks.refuses(x, "lay by -1", Checks.ARGUMENT, () -> x.lay(0, 0, -1));
@@ -98,8 +98,8 @@ public final class PaperAndCopiesTests {
     }
 
     /** A bound book of one sheet and six copies, whose outer forme was corrected after two and four sheets. */
-    private static Leadchapel corrected(boolean outerFirst) {
-        Leadchapel x = house(1, 6);
+    private static House corrected(boolean outerFirst) {
+        House x = house(1, 6);
         if (!outerFirst) {
             printAll(x, 1);
         }
@@ -118,7 +118,7 @@ public final class PaperAndCopiesTests {
 
     /** Each sheet has its own heap, and its own forme that was printed first. */
     private static void statesOfTwoSheets() {
-        Leadchapel x = new Leadchapel();
+        House x = new House();
         x.cast(0, 9);
         x.hand(0, 0, 0);
         x.book(4, 2, 10, 1, 4);
@@ -146,8 +146,8 @@ public final class PaperAndCopiesTests {
 
     /** Promises 32 and 35. */
     private static void statesAndAlike() {
-        Leadchapel x = corrected(true);
-        Leadchapel y = corrected(false);
+        House x = corrected(true);
+        House y = corrected(false);
         int[] states = {0, 0, 1, 1, 2, 2};
         for (int copy = 0; copy < 6; copy++) {
             Checks.due("state of the first forme, " + copy, states[copy], x.state(0, copy, 0));
@@ -175,7 +175,7 @@ public final class PaperAndCopiesTests {
 
     /** Promises 30, 31 and 36. */
     private static void exchangeCancelMadeUp() {
-        Leadchapel x = corrected(true);
+        House x = corrected(true);
         for (int copy = 0; copy < 6; copy++) {
             Checks.due("made up of one sheet", 0, x.madeUp(0, copy));
         }
@@ -217,7 +217,7 @@ public final class PaperAndCopiesTests {
 
     /** What is refused as long as a book is not bound; what is not there is told first. */
     private static void notBound() {
-        Leadchapel x = house(1, 2);
+        House x = house(1, 2);
         Checks.refuses(x, "exchange", Checks.STATE, () -> x.exchange(0, 0, 1, 0));
         Checks.refuses(x, "exchange of leaf 2", Checks.INDEX, () -> x.exchange(0, 0, 1, 2));
         Checks.refuses(x, "cancel", Checks.STATE, () -> x.cancel(0, 1, 1));
@@ -235,7 +235,7 @@ public final class PaperAndCopiesTests {
 
     /** Promise 34: blanks, dots, turned and joined letters. */
     private static void characters() {
-        Leadchapel x = new Leadchapel();
+        House x = new House();
         x.hand(0, 0, 0);
         Checks.castAll(x, "abcdeghijkl", 9);
         x.cast(Checks.sort('u'), 2);
@@ -275,7 +275,7 @@ public final class PaperAndCopiesTests {
 
     /** Pieces that were put away wrongly print their own letters, turned or not; so do states. */
     private static void wrongPieces() {
-        Leadchapel x = new Leadchapel();
+        House x = new House();
         x.hand(0, 1, 0);
         x.cast(26, 2);
         x.cast(Checks.sort('t'), 2);

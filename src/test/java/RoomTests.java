@@ -30,11 +30,18 @@ public final class RoomTests {
         return x;
     }
 
-    /** Brings a book of 16 pages through; asks all that is dear. */
+    private static void type(Leadchapel x, String text) {
+        for (int from = 0; from < text.length(); from += 8) {
+            String part = text.substring(from, Math.min(from + 8, text.length()));
+            x.type(Checks.packed(part), part.length());
+        }
+    }
+
+    /** Brings a book of 16 pages through; asks all that is dear; it is some 350 calls. */
     private static int work(Leadchapel x, int book) {
         int sum = 0;
         for (int i = 0; i < 3; i++) {
-            Checks.type(x, "a b c d e f g h i j a a a a a a a a a a");
+            type(x, "a b c d e f g h i j a a a a a a a a a a");
             sum += x.copy(book);
         }
         sum += x.castOff(book, 50);
@@ -44,9 +51,9 @@ public final class RoomTests {
         for (int forme = 0; forme < 8; forme++) {
             x.lock(book, forme, 0);
             x.print(0, book, forme);
-            for (int hour = 0; hour < 30; hour++) {
-                sum += x.pass(1);
-                if (x.forme(book, forme, 0) == Leadchapel.ON && x.page(book, forme * 2, 6) > 0) {
+            for (int round = 0; round < 7; round++) {
+                sum += x.pass(3);
+                if (x.page(book, forme / 2 * 4 + forme % 2, 6) > 0) {
                     sum += x.correct(book, forme / 2 * 4 + forme % 2, 0);
                 }
             }

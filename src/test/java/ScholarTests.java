@@ -4,8 +4,8 @@ public final class ScholarTests {
     }
 
     /** A house with a book of two sheets, cast off so that each page has one word of four letters. */
-    private static Leadchapel house(String copy) {
-        Leadchapel x = new Leadchapel();
+    private static House house(String copy) {
+        House x = new House();
         x.cast(0, 8);
         x.cast(1, 8);
         x.hand(0, 0, 0);
@@ -16,7 +16,7 @@ public final class ScholarTests {
         return x;
     }
 
-    private static void setAndLock(Leadchapel x, int forme, int skeleton) {
+    private static void setAndLock(House x, int forme, int skeleton) {
         for (int page = 0; page < 8; page++) {
             if (x.page(0, page, 0) == forme) {
                 x.set(0, page, 0);
@@ -25,26 +25,26 @@ public final class ScholarTests {
         x.lock(0, forme, skeleton);
     }
 
-    private static void bringThrough(Leadchapel x, int forme, int skeleton) {
+    private static void bringThrough(House x, int forme, int skeleton) {
         setAndLock(x, forme, skeleton);
         x.print(0, 0, forme);
         x.pass(2);
         x.putAway(0, forme, 0);
     }
 
-    private static void dueOrders(Leadchapel x, int want) {
+    private static void dueOrders(House x, int want) {
         Checks.due("orders", want, x.orders(0));
         Checks.due("orders anew", want, x.ordersAnew(0));
     }
 
-    private static void dueAhead(Leadchapel x, int one, int other, int want) {
+    private static void dueAhead(House x, int one, int other, int want) {
         Checks.due("ahead " + one + " " + other, want, x.ahead(0, one, other));
         Checks.due("ahead " + other + " " + one, -want, x.ahead(0, other, one));
     }
 
     /** Promises 37 to 40. */
     private static void sharedAndOrders() {
-        Leadchapel x = house("aaaa/aaaa/aaaa/aaaa/aaaa/aaaa/aaaa/aaaa");
+        House x = house("aaaa/aaaa/aaaa/aaaa/aaaa/aaaa/aaaa/aaaa");
         dueOrders(x, 24);
         dueAhead(x, 0, 1, 0);
         Checks.due("nothing shared", 0, x.shared(0, 0, 1));
@@ -89,7 +89,7 @@ public final class ScholarTests {
 
     /** What is seen in a forme is how its pieces were when it was DONE. */
     private static void seenWhenDone() {
-        Leadchapel x = house("aaaa/aaaa/aaaa/aaaa/aaaa/aaaa/aaaa/aaaa");
+        House x = house("aaaa/aaaa/aaaa/aaaa/aaaa/aaaa/aaaa/aaaa");
         setAndLock(x, 0, 0);
         x.wear(0);
         x.print(0, 0, 0);
@@ -103,7 +103,7 @@ public final class ScholarTests {
         dueAhead(x, 0, 1, 1);
         dueOrders(x, 12);
 
-        Leadchapel y = house("aaaa/aaaa/aaaa/aaaa/aaaa/aaaa/aaaa/aaaa");
+        House y = house("aaaa/aaaa/aaaa/aaaa/aaaa/aaaa/aaaa/aaaa");
         y.wear(0);
         bringThrough(y, 0, 0);
         y.cast(0, 1);
@@ -123,7 +123,7 @@ public final class ScholarTests {
     }
 
     private static void aheadByOther(String copy, int first, int between) {
-        Leadchapel x = house(copy);
+        House x = house(copy);
         x.wear(0);
         bringThrough(x, first, 0);
         for (int piece : new int[] {0, 8, 9, 10, 11, 12, 13, 14, 15}) {
@@ -148,7 +148,7 @@ public final class ScholarTests {
     }
 
     private static void noWearAndMoreFormes() {
-        Leadchapel x = new Leadchapel();
+        House x = new House();
         x.book(2, 4, 10, 1, 2);
         x.book(2, 3, 10, 1, 2);
         x.book(8, 1, 10, 1, 2);
@@ -160,8 +160,8 @@ public final class ScholarTests {
     }
 
     /** Sets the text, a line a page, by the hands that are told, one for each page. */
-    private static Leadchapel pages(int measure, int lines, String text, int... likes) {
-        Leadchapel x = new Leadchapel();
+    private static House pages(int measure, int lines, String text, int... likes) {
+        House x = new House();
         Checks.spelling(x, "do doe");
         Checks.spelling(x, "go gooee");
         for (int its = 0; its < 4; its++) {
@@ -177,7 +177,7 @@ public final class ScholarTests {
 
     /** Promise 41. */
     private static void hands() {
-        Leadchapel x = pages(10, 1, "do/do");
+        House x = pages(10, 1, "do/do");
         Checks.due("no page", 0, x.hands(0));
         Checks.refuses(x, "hands of no book", Checks.INDEX, () -> x.hands(1));
         Checks.due("pages without words", 1, pages(10, 1, "ab", 0, 1, 2).hands(0));
@@ -200,7 +200,7 @@ public final class ScholarTests {
 
     /** Six pages, each unlike two others, so that the first two pages, which are alike, are by two hands all the same. */
     private static void handsInARing() {
-        Leadchapel x = new Leadchapel();
+        House x = new House();
         for (String pair : new String[] {"a ab", "c cd", "e ef", "g gh", "i ij", "k kl"}) {
             Checks.spelling(x, pair);
         }
@@ -216,7 +216,7 @@ public final class ScholarTests {
     }
 
     private static void handsOfTwoBooks() {
-        Leadchapel x = pages(10, 1, "do/do", 0, 1);
+        House x = pages(10, 1, "do/do", 0, 1);
         x.book(2, 1, 10, 1, 2);
         Checks.copy(x, 1, "do/do");
         x.set(1, 0, 0);
@@ -227,7 +227,7 @@ public final class ScholarTests {
     }
 
     private static void crowdedHands() {
-        Leadchapel x = pages(10, 1, "do/abc ab/do");
+        House x = pages(10, 1, "do/abc ab/do");
         x.castOff(0, 100);
         x.set(0, 0, 3);
         Checks.due("crowded", 1, x.page(0, 0, 4));
@@ -237,8 +237,8 @@ public final class ScholarTests {
         Checks.due("a crowded page is not loose", 1, x.hands(0));
     }
 
-    private static Leadchapel printable(int books, int edition) {
-        Leadchapel x = new Leadchapel();
+    private static House printable(int books, int edition) {
+        House x = new House();
         x.hand(0, 0, 0);
         for (int press = 0; press < 3; press++) {
             x.men(press, 2);
@@ -258,7 +258,7 @@ public final class ScholarTests {
 
     /** Promise 42. */
     private static void presses() {
-        Leadchapel x = printable(1, 3);
+        House x = printable(1, 3);
         Checks.due("none DONE", 0, x.presses(0));
         x.print(0, 0, 0);
         x.pass(2);
@@ -275,7 +275,7 @@ public final class ScholarTests {
         Checks.due("hours behind the last one are not counted", 2, x.presses(0));
         Checks.refuses(x, "presses of no book", Checks.INDEX, () -> x.presses(1));
 
-        Leadchapel y = printable(1, 3);
+        House y = printable(1, 3);
         y.pass(5);
         for (int press = 0; press < 3; press++) {
             y.print(press, 0, 2 * press);
@@ -283,7 +283,7 @@ public final class ScholarTests {
         y.pass(3);
         Checks.due("sheets are rounded up", 3, y.presses(0));
 
-        Leadchapel z = printable(1, 2);
+        House z = printable(1, 2);
         z.pass(5);
         z.men(0, 0);
         z.print(0, 0, 0);
@@ -298,7 +298,7 @@ public final class ScholarTests {
     }
 
     private static void pressesAreRoundedUp() {
-        Leadchapel x = printable(1, 2);
+        House x = printable(1, 2);
         x.men(0, 1);
         x.men(1, 1);
         x.print(0, 0, 0);
@@ -308,14 +308,14 @@ public final class ScholarTests {
     }
 
     private static void pressesAndHolidays() {
-        Leadchapel x = printable(1, 2);
+        House x = printable(1, 2);
         x.pass(59);
         x.print(0, 0, 0);
         x.print(1, 0, 2);
         x.pass(12);
         Checks.due("DONE behind the holiday", 70, x.forme(0, 0, 4));
         Checks.due("a holiday is not counted", 2, x.presses(0));
-        Leadchapel y = printable(1, 2);
+        House y = printable(1, 2);
         y.pass(65);
         y.print(0, 0, 0);
         y.print(1, 0, 2);

@@ -5,7 +5,7 @@ public final class WordsAndTypeTests {
 
     /** Promise 1. */
     private static void newObject() {
-        Leadchapel x = new Leadchapel();
+        House x = new House();
         Checks.due("hour of a new house", 0, x.hour());
         Checks.due("fault of an empty tape", 0, x.fault());
         Checks.due("wipe of a new house", 0, x.wipe());
@@ -30,7 +30,7 @@ public final class WordsAndTypeTests {
 
     /** Promise 2. */
     private static void type() {
-        Leadchapel x = new Leadchapel();
+        House x = new House();
         Checks.due("type one", 1, x.type('a', 1));
         Checks.due("type with more than n characters", 3, x.type(Checks.packed("bz.A"), 2));
         Checks.due("type eight", 11, x.type(Checks.packed("c/d efgh"), 8));
@@ -57,7 +57,7 @@ public final class WordsAndTypeTests {
 
     /** Promises 3 and 4. */
     private static void wipeAndFault() {
-        Leadchapel x = new Leadchapel();
+        House x = new House();
         Object[][] tapes = {
             {"", 0}, {"a", -1}, {"abcdefgh", -1}, {"abcdefghi", 8}, {" a", 0}, {"/a", 0}, {"a ", 2}, {"a/", 2},
             {"a b", -1}, {"a/b", -1}, {"a  b", 2}, {"a //b", 2}, {"a/ b", 2}, {"ab cdefghijk lm", 11}, {" ", 0},
@@ -76,7 +76,7 @@ public final class WordsAndTypeTests {
 
     /** Promise 5. */
     private static void spelling() {
-        Leadchapel x = new Leadchapel();
+        House x = new House();
         String[] bad = {"", "do", "do ", "do/doe", "do do", "doe do", "do doeee e", "do doeeee", "do  doe", "do doe so",
             "doedoedoe doedoedoee", "a abcde"};
         for (String text : bad) {
@@ -102,7 +102,7 @@ public final class WordsAndTypeTests {
         Checks.type(x, "do ff");
         Checks.refuses(x, "the seventh spelling, of a known word", Checks.ARGUMENT, x::spelling);
 
-        Leadchapel y = new Leadchapel();
+        House y = new House();
         y.book(2, 1, 10, 1, 2);
         Checks.due("a spelling with a book without copy", 0, Checks.spelling(y, "do doe"));
         y.book(2, 1, 10, 1, 2);
@@ -115,7 +115,7 @@ public final class WordsAndTypeTests {
 
     /** Promises 6, 8 and 9. */
     private static void castPieceAndBox() {
-        Leadchapel x = new Leadchapel();
+        House x = new House();
         Checks.due("cast", 3, x.cast(0, 3));
         Checks.due("cast of fl", 4, x.cast(27, 1));
         Checks.due("cast again", 6, x.cast(0, 2));
@@ -154,7 +154,7 @@ public final class WordsAndTypeTests {
 
     /** Promise 7. */
     private static void wear() {
-        Leadchapel x = new Leadchapel();
+        House x = new House();
         x.cast(3, 2);
         Checks.due("wear", 1, x.wear(1));
         Checks.due("wear again", 2, x.wear(1));
@@ -168,7 +168,7 @@ public final class WordsAndTypeTests {
 
     /** Promise 10. */
     private static void hand() {
-        Leadchapel x = new Leadchapel();
+        House x = new House();
         Checks.refuses(x, "likes -1", Checks.ARGUMENT, () -> x.hand(-1, 0, 0));
         Checks.refuses(x, "likes 64", Checks.ARGUMENT, () -> x.hand(64, 0, 0));
         Checks.refuses(x, "drops -1", Checks.ARGUMENT, () -> x.hand(0, -1, 0));
