@@ -2,6 +2,7 @@ import java.util.ArrayList;
 import java.util.HashSet;
 import java.util.List;
 import java.util.Set;
+import java.util.function.Consumer;
 import java.util.function.IntUnaryOperator;
 import java.util.function.Supplier;
 import java.util.function.ToIntFunction;
@@ -13,6 +14,7 @@ final class Checks {
     static final Class<IndexOutOfBoundsException> INDEX = IndexOutOfBoundsException.class;
 
     private static final int ABSENT = -99;
+    private static final int MOST_FUTURE = 110;
     private static final Set<Integer> PROMISES = new HashSet<>();
 
     private static String sentence = "";
@@ -203,11 +205,11 @@ final class Checks {
         Teller(Supplier<House> made) {
             this.made = made;
             now = made.get();
-            if (now.callsLeft() < 20) {
+            if (now.callsLeft() <= MOST_FUTURE) {
                 throw new AssertionError("a test makes too many calls ahead of one that is refused");
             }
             tellHouse();
-            tellFuture();
+            tellFutures();
         }
 
         private int ask(ToIntFunction<House> call) {
@@ -309,17 +311,157 @@ final class Checks {
             }
         }
 
-        /** What can't be asked, but shows in what comes: the tape, the men, and how far the presses are. */
-        private void tellFuture() {
+        /** What can't be asked, but shows in what comes; each of these futures is that of a house made anew. */
+        private void tellFutures() {
+            future(this::setOn);
+            future(this::copyOn);
+            future(this::followOn);
+            future(this::castOffOn);
+            future(this::growOn);
+            future(this::lockOn);
+            future(this::printOn);
+            future(this::correctAndPutAwayOn);
+            future(this::bindOn);
+        }
+
+        private void future(Runnable calls) {
             now = made.get();
-            all.append(now.wipe()).append(' ');
-            for (int press = 0; press < 3; press++) {
-                all.append(now.men(press, 1)).append(' ');
+            int left = now.callsLeft() - MOST_FUTURE;
+            calls.run();
+            if (now.callsLeft() < left) {
+                throw new AssertionError("a future has more calls than it may");
             }
-            for (int i = 0; i < 2; i++) {
-                all.append(askIfThere(x -> x.pass(1))).append(' ');
-                for (int press = 0; press < 3; press++) {
-                    all.append(now.account(2, press)).append(' ').append(now.account(3, press)).append(' ');
+            all.append('\n');
+        }
+
+        private int tryOut(ToIntFunction<House> call) {
+            int answer;
+            try {
+                answer = call.applyAsInt(now);
+            } catch (IndexOutOfBoundsException e) {
+                answer = -101;
+            } catch (IllegalArgumentException e) {
+                answer = -102;
+            } catch (IllegalStateException e) {
+                answer = -103;
+            }
+            all.append(answer).append(' ');
+            return answer;
+        }
+
+        private void tryOutVoid(Consumer<House> call) {
+            tryOut(x -> {
+                call.accept(x);
+                return 0;
+            });
+        }
+
+        private void setOn() {
+            for (int i = 0; i < 48; i++) {
+                int book = i / 16;
+                int page = i % 16;
+                if (tryOut(x -> x.set(book, page, 0)) >= 0) {
+                    tryOut(x -> x.page(book, page, 3));
+                }
+            }
+        }
+
+        private void copyOn() {
+            tryOut(House::wipe);
+            for (int i = 0; i < 3; i++) {
+                int book = i;
+                tryOut(x -> x.type('a', 1));
+                tryOut(x -> x.copy(book));
+            }
+        }
+
+        private void followOn() {
+            for (int i = 0; i < 6; i++) {
+                int book = i / 2;
+                int other = (book + 1 + i % 2) % 3;
+                tryOut(x -> x.follow(book, other));
+            }
+        }
+
+        private void castOffOn() {
+            for (int i = 0; i < 3; i++) {
+                int book = i;
+                tryOut(x -> x.castOff(book, 50));
+                tryOut(x -> x.set(book, 1, 0));
+                tryOut(x -> x.page(book, 1, 3));
+            }
+        }
+
+        private void growOn() {
+            tryOut(House::wipe);
+            tryOut(x -> x.type(packed("z zxyq"), 6));
+            tryOut(House::spelling);
+            tryOut(x -> x.cast(0, 1));
+            tryOut(x -> x.hand(0, 0, 0));
+            tryOut(x -> x.book(2, 1, 10, 1, 2));
+            tryOut(x -> x.pass(70));
+            tryOut(House::hour);
+        }
+
+        private void lockOn() {
+            for (int i = 0; i < 24; i++) {
+                int book = i / 8;
+                int forme = i % 8;
+                tryOutVoid(x -> x.lock(book, forme, forme % 6));
+            }
+        }
+
+        /** The men, the stock, and how far presses are. */
+        private void printOn() {
+            for (int i = 0; i < 24; i++) {
+                int book = i / 8;
+                int forme = i % 8;
+                tryOutVoid(x -> x.print(forme % 3, book, forme));
+            }
+            for (int hour = 0; hour < 3; hour++) {
+                tryOut(x -> x.pass(1));
+                for (int i = 0; i < 3; i++) {
+                    int press = i;
+                    tryOut(x -> x.account(2, press));
+                    tryOut(x -> x.account(3, press));
+                    tryOut(x -> x.account(4, press));
+                }
+            }
+            for (int i = 0; i < 3; i++) {
+                int press = i;
+                tryOut(x -> x.men(press, 0));
+            }
+        }
+
+        private void correctAndPutAwayOn() {
+            for (int i = 0; i < 12; i++) {
+                int book = i / 4;
+                int page = i % 4;
+                tryOut(x -> x.correct(book, page, 0));
+            }
+            for (int i = 0; i < 12; i++) {
+                int book = i / 4;
+                int forme = i % 4;
+                tryOut(x -> x.putAway(book, forme, 0));
+            }
+            for (int i = 0; i < 28; i++) {
+                int sort = i;
+                tryOut(x -> x.box(sort, 0));
+            }
+        }
+
+        /** The turns of heaps, and which formes were first. */
+        private void bindOn() {
+            for (int i = 0; i < 3; i++) {
+                int book = i;
+                tryOut(x -> x.pass(30));
+                if (tryOut(x -> x.bind(book)) >= 0) {
+                    for (int copy = 0; copy < 3; copy++) {
+                        int its = copy;
+                        tryOut(x -> x.mark(book, its, 0));
+                        tryOut(x -> x.state(book, its, 0));
+                        tryOut(x -> x.state(book, its, 1));
+                    }
                 }
             }
         }

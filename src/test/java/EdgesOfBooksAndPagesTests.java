@@ -32,6 +32,7 @@ public final class EdgesOfBooksAndPagesTests {
         });
         Checks.holds(11, "numbered from 0, at most 3", () -> {
             House x = new House();
+            Checks.refuses(x, "edition 25", Checks.ARGUMENT, () -> x.book(2, 1, 10, 1, 25));
             for (int number = 0; number < 3; number++) {
                 Checks.due("book", number, x.book(2, 4, 24, 6, 24));
             }
@@ -202,6 +203,12 @@ public final class EdgesOfBooksAndPagesTests {
             x.set(0, 0, 0);
             Checks.due("one word", 1, x.follow(1, 0));
         });
+        Checks.holds(13, "a call that throws an exception changes nothing", () -> {
+            House x = withTwoBooks("ab");
+            Checks.refuses(x, "no page is set", Checks.STATE, () -> x.follow(1, 0));
+            Checks.refuses(x, "itself", Checks.ARGUMENT, () -> x.follow(1, 1));
+            Checks.due("copy from the first word on", 1, Checks.copy(x, 1, "cd"));
+        });
         Checks.holds(13, "by rising pages: all its words", () -> {
             House x = withTwoBooks("abcd/efgh/ijkl/mnop");
             x.castOff(0, 50);
@@ -286,6 +293,14 @@ public final class EdgesOfBooksAndPagesTests {
             Checks.copy(x, 0, "a");
             x.castOff(0, 100);
             Checks.refuses(x, "151 percent when it is cast off", Checks.ARGUMENT, () -> x.castOff(0, 151));
+        });
+        Checks.holds(14, "a call that throws an exception changes nothing", () -> {
+            House x = Shop.withBook(2, 1, 10, 1, 2);
+            Checks.refuses(x, "no copy", Checks.STATE, () -> x.castOff(0, 100));
+            Checks.due("copy can come", 2, Checks.copy(x, 0, "a b"));
+            Checks.refuses(x, "151 percent", Checks.ARGUMENT, () -> x.castOff(0, 151));
+            Checks.due("more copy can come", 4, Checks.copy(x, 0, "c d"));
+            Checks.due("cast off by the percent that was taken", 4, x.castOff(0, 50));
         });
         Checks.holds(14, "p times as many units as a page holds, or more", () -> {
             int[][] byPercent = {{50, 8}, {60, 9}, {70, 11}, {80, 12}, {100, 15}, {150, 23}};
@@ -376,6 +391,18 @@ public final class EdgesOfBooksAndPagesTests {
             Checks.refuses(x, "set again", Checks.STATE, () -> x.set(0, 0, 0));
             x.set(0, 1, 0);
             Checks.due("the chance behind one that was refused is the second one", 1, x.page(0, 1, 2));
+        });
+        Checks.holds(15, "the word behind those through which the page ahead went", () -> {
+            House x = new House();
+            x.hand(0, 0, 1);
+            x.book(2, 1, 10, 1, 2);
+            Checks.copy(x, 0, "ab cd ab/ef/gh");
+            x.set(0, 0, 0);
+            Checks.due("the first word, and the one behind its twin", 2, x.page(0, 0, 2));
+            Checks.due("through", 4, x.page(0, 0, 3));
+            x.set(0, 1, 0);
+            Checks.due("the next page begins behind both", 4, x.line(0, 1, 0, 1));
+            Checks.due("through of the next page", 5, x.page(0, 1, 3));
         });
         Checks.holds(15, "its part does not begin yet", () -> {
             House x = Shop.withCopy("a/b");
@@ -605,6 +632,9 @@ public final class EdgesOfBooksAndPagesTests {
             dueLine("1 of the second one, of 2", line(12, 0, "abcde cc xxxxxxxx", GROWS, "cc ccc"), 2, 1, 1, 2);
             dueLine("both", line(14, 0, "abcde cc xxxxxxxx", GROWS, "cc ccc"), 2, 0, 1, 3);
             dueLine("a word alone has no blank", line(10, 0, "abcde xxxxxxxx", GROWS), 1, 2, 1, 1);
+            dueLine("one that is long is not made long again", line(12, 2, "b abcdefg hijklmno", GROWS, "b bc"), 2, 0, 1, 2);
+            dueLine("one that is long, alone", line(10, 1, "do abcdefgh", "do doe"), 1, 7, 1, 1);
+            dueLine("a word of no spelling", line(10, 0, "do abcdefgh", "ab abc"), 1, 8, 1, 0);
         });
         Checks.holds(17, "but not on a crowded page", () -> {
             House x = crowd(0, "a do xxxxxxxx", 150);
@@ -833,6 +863,8 @@ public final class EdgesOfBooksAndPagesTests {
             duePlaces("fifi fifl", 26, 26, 5, 8, 27);
             duePlaces("fj fk fm ff", 5, 9, 5, 10, 5, 12, 5, 5);
             duePlaces("ei el gi", 4, 8, 4, 11, 6, 8);
+            duePlaces("ibcdeghf lbcdeghf", 8, 1, 2, 3, 4, 6, 7, 5, 11, 1, 2, 3, 4, 6, 7, 5);
+            duePlaces("abcdegfi abcdegfl", 0, 1, 2, 3, 4, 6, 26, 0, 1, 2, 3, 4, 6, 27);
         });
     }
 

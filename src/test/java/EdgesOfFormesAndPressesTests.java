@@ -86,6 +86,16 @@ public final class EdgesOfFormesAndPressesTests {
             Checks.due("with all", Leadchapel.LOCKED, x.forme(0, 0, 0));
         });
         Checks.holds(19, "another forme has this skeleton", EdgesOfFormesAndPressesTests::skeletons);
+        Checks.holds(19, "a call that throws an exception changes nothing", () -> {
+            House x = house(2);
+            x.book(2, 1, 10, 1, 2);
+            Checks.copy(x, 1, "a");
+            x.lock(0, 0, 0);
+            Checks.refuses(x, "a LOCKED forme in skeleton 3", Checks.STATE, () -> x.lock(0, 0, 3));
+            Checks.refuses(x, "a forme whose pages are not set in skeleton 3", Checks.STATE, () -> x.lock(1, 1, 3));
+            x.lock(0, 1, 3);
+            Checks.due("skeleton 3 is free", 3, x.forme(0, 1, 1));
+        });
         Checks.holds(19, "IndexOutOfBoundsException first, then IllegalArgumentException", () -> {
             House x = locked(2);
             Checks.refuses(x, "forme 2, skeleton 6", Checks.INDEX, () -> x.lock(0, 2, 6));
@@ -175,11 +185,47 @@ public final class EdgesOfFormesAndPressesTests {
             House x = Shop.withBook(2, 2, 10, 1, 2);
             Checks.copy(x, 0, "a");
             Shop.setPages(x, 0, 0, 8);
-            x.lock(0, 1, 1);
-            x.lock(0, 2, 2);
+            for (int forme = 0; forme < 4; forme++) {
+                x.lock(0, forme, forme);
+            }
             x.print(0, 0, 1);
             x.print(1, 0, 2);
             Checks.due("the forme of another sheet", Leadchapel.ON, x.forme(0, 2, 0));
+            Checks.refuses(x, "the outer one of the first sheet", Checks.STATE, () -> x.print(2, 0, 0));
+            Checks.refuses(x, "the inner one of the second sheet", Checks.STATE, () -> x.print(2, 0, 3));
+            House y = Shop.withBook(2, 4, 10, 1, 2);
+            Checks.copy(y, 0, "a");
+            Shop.setPages(y, 0, 0, 16);
+            y.lock(0, 6, 0);
+            y.lock(0, 7, 1);
+            y.print(0, 0, 7);
+            Checks.refuses(y, "the outer one of the last sheet", Checks.STATE, () -> y.print(1, 0, 6));
+        });
+        Checks.holds(20, "a call that throws an exception changes nothing", () -> {
+            House x = Shop.withBook(2, 1, 10, 1, 3);
+            x.book(2, 1, 10, 1, 3);
+            x.cast(0, 5);
+            for (int book = 0; book < 2; book++) {
+                Checks.copy(x, book, "a/a");
+                Shop.setAll(x, book);
+                x.lock(book, 0, 2 * book);
+                x.lock(book, 1, 2 * book + 1);
+            }
+            x.men(0, 1);
+            x.print(0, 1, 0);
+            Checks.refuses(x, "the inner forme, on a press with a forme", Checks.STATE, () -> x.print(0, 0, 1));
+            Checks.due("no heap was taken for it", 3, x.account(4, 0));
+            x.pass(4);
+            x.paper(2);
+            x.print(0, 0, 0);
+            x.pass(2);
+            Checks.due("behind the first sheet", 1, x.correct(0, 0, 0));
+            x.pass(2);
+            Shop.printOut(x, 0, 1);
+            x.bind(0);
+            Checks.due("the stock that was told then", 4, x.mark(0, 0, 0));
+            Checks.due("the outer forme was the first one", 0, x.state(0, 0, 0));
+            Checks.due("the outer forme on the last sheet", 1, x.state(0, 2, 0));
         });
         Checks.holds(20, "IndexOutOfBoundsException is named first", () -> {
             House x = house(2);
@@ -405,6 +451,41 @@ public final class EdgesOfFormesAndPressesTests {
             }
         });
         Checks.holds(25, "the box of the wanted sort is empty", EdgesOfFormesAndPressesTests::correctFromBoxes);
+        Checks.holds(25, "a call that throws an exception changes nothing", () -> {
+            House x = Shop.withBook(2, 1, 10, 1, 4);
+            Checks.copy(x, 0, "ab");
+            x.cast(0, 2);
+            Shop.setAll(x, 0);
+            x.lock(0, 0, 0);
+            x.men(0, 1);
+            x.print(0, 0, 0);
+            x.pass(2);
+            Checks.refuses(x, "an empty box behind a sheet", Checks.STATE, () -> x.correct(0, 0, 1));
+            Checks.due("states", 1, x.forme(0, 0, 3));
+            x.pass(1);
+            Checks.due("the first correction, behind the second sheet", 1, x.correct(0, 0, 0));
+            Checks.refuses(x, "an empty box behind no sheet", Checks.STATE, () -> x.correct(0, 0, 1));
+        });
+        Checks.holds(25, "Corrects a place of a page", () -> {
+            House x = Shop.withBook(2, 1, 10, 1, 2);
+            x.book(2, 1, 10, 1, 2);
+            x.book(2, 4, 10, 1, 2);
+            x.cast(0, 40);
+            Checks.copy(x, 2, "a/a/a/a/a/a/a/a");
+            Checks.copy(x, 2, "a/a/a/a/a/a/a/a");
+            Shop.setPages(x, 2, 0, 16);
+            x.lock(2, 6, 0);
+            x.lock(2, 7, 1);
+            for (int page = 12; page < 16; page++) {
+                int old = x.place(2, page, 0, 0);
+                Checks.due("state", 0, x.correct(2, page, 0));
+                Checks.due("another piece", 0, x.place(2, page, 0, 0) == old ? 1 : 0);
+                Checks.due("where it is", 300 + page, x.piece(x.place(2, page, 0, 0), 2));
+                Checks.due("where the old one is", 0, x.piece(old, 2));
+                Checks.due("on top", old, x.box(0, 0));
+            }
+            Checks.refuses(x, "page 11, whose forme is OPEN", Checks.STATE, () -> x.correct(2, 11, 0));
+        });
         Checks.holds(25, "IndexOutOfBoundsException is named first", () -> {
             House x = house(2);
             Checks.refuses(x, "place 2 in an OPEN forme", Checks.INDEX, () -> x.correct(0, 0, 2));
@@ -522,6 +603,19 @@ public final class EdgesOfFormesAndPressesTests {
             Checks.due("the account", 2, x.account(1, 0));
         });
         Checks.holds(26, "by rising pages and places, each on top of its box", EdgesOfFormesAndPressesTests::onTop);
+        Checks.holds(26, "to put all its pieces away", () -> {
+            House x = Shop.withCopy("n");
+            x.cast(Checks.sort('u'), 1);
+            Shop.setAll(x, 0);
+            x.lock(0, 0, 0);
+            Shop.printOut(x, 0, 0);
+            Checks.due("turned", 1, x.place(0, 0, 0, 2));
+            Checks.due("a turned one", 1, x.putAway(0, 0, 0));
+            Checks.due("in the box of its sort", 0, x.box(Checks.sort('u'), 0));
+            Checks.due("no piece is there", Leadchapel.NONE, x.place(0, 0, 0, 0));
+            Checks.due("none that is turned", 0, x.place(0, 0, 0, 2));
+            Checks.due("the wanted sort stays", Checks.sort('n'), x.place(0, 0, 0, 1));
+        });
         Checks.holds(26, "a call that throws an exception changes nothing", () -> {
             House x = house(2);
             x.hand(0, 3, 0);

@@ -113,8 +113,31 @@ public final class EdgesOfPaperAndCopiesTests {
             Checks.refuses(x, "sheet 1, turn 2", Checks.INDEX, () -> x.lay(0, 1, 2));
             Checks.refuses(x, "sheet -1, turn -1", Checks.INDEX, () -> x.lay(0, -1, -1));
         });
+        Checks.holds(28, "a call that throws an exception changes nothing", () -> {
+            House x = withStates(3, true);
+            x.lay(0, 0, 1);
+            Checks.refuses(x, "turn 3", Checks.ARGUMENT, () -> x.lay(0, 0, 3));
+            Checks.refuses(x, "sheet 1", Checks.INDEX, () -> x.lay(0, 1, 2));
+            x.bind(0);
+            Checks.refuses(x, "turn 2, when it is bound", Checks.STATE, () -> x.lay(0, 0, 2));
+            for (int copy = 0; copy < 3; copy++) {
+                Checks.due("copy " + copy, (copy + 1) % 3, x.state(0, copy, 0));
+            }
+        });
         Checks.holds(28, "the number c and the turn of that heap together, modulo the edition",
                 EdgesOfPaperAndCopiesTests::turns);
+        Checks.holds(28, "the turn of that heap", () -> {
+            House x = locked(3, 3);
+            printFormes(x, 0, 6);
+            x.lay(0, 2, 1);
+            x.lay(0, 0, 2);
+            x.bind(0);
+            for (int copy = 0; copy < 3; copy++) {
+                Checks.due("turn 2, copy " + copy, (copy + 2) % 3 % 2, x.mark(0, copy, 0));
+                Checks.due("turn 0, copy " + copy, (3 + copy) % 2, x.mark(0, copy, 2));
+                Checks.due("turn 1, copy " + copy, (6 + (copy + 1) % 3) % 2, x.mark(0, copy, 5));
+            }
+        });
         Checks.holds(28, "the turn of a heap, which is 0 at first", () -> {
             House x = withStates(3, true);
             x.bind(0);
@@ -288,6 +311,29 @@ public final class EdgesOfPaperAndCopiesTests {
                 Checks.due("page " + page + " of the copy ahead", 0, x.state(0, 0, page));
             }
         });
+        Checks.holds(32, "Returns the state of its forme on that leaf", () -> {
+            House x = Shop.withBook(2, 4, 10, 1, 4);
+            x.cast(0, 40);
+            Checks.copy(x, 0, "a/a/a/a/a/a/a/a");
+            Checks.copy(x, 0, "a/a/a/a/a/a/a/a");
+            Shop.setPages(x, 0, 0, 16);
+            int[] page = {0, 1, 4, 5, 8, 9, 12, 13};
+            for (int forme : new int[] {0, 3, 2, 1, 5, 6, 7, 4}) {
+                x.lock(0, forme, 0);
+                x.men(0, 1);
+                x.print(0, 0, forme);
+                x.pass(4);
+                x.correct(0, page[forme], 0);
+                x.pass(1);
+                x.putAway(0, forme, 0);
+            }
+            x.bind(0);
+            String last = "0110100110010110";
+            for (int its = 0; its < 16; its++) {
+                Checks.due("page " + its + " of the first copy", last.charAt(its) - '0', x.state(0, 0, its));
+                Checks.due("page " + its + " of the last copy", '1' - last.charAt(its), x.state(0, 3, its));
+            }
+        });
         Checks.holds(32, "the other one is printed in the opposite order, as the heap was turned over", () -> {
             for (int edition = 2; edition <= 24; edition += 11) {
                 House first = withStates(edition, true);
@@ -411,9 +457,24 @@ public final class EdgesOfPaperAndCopiesTests {
             printFormes(full, 0, 2);
             full.bind(0);
             full.cancel(0, 0, 0);
-            Checks.due("the last character of a full page", 'n', full.character(0, 1, 0, 5, 23));
-            Checks.due("none behind it", Leadchapel.NONE, full.character(0, 1, 0, 5, 24));
+            for (int line = 0; line < 6; line++) {
+                Checks.due("the last character of line " + line, 'n', full.character(0, 1, 0, line, 23));
+                Checks.due("none behind line " + line, Leadchapel.NONE, full.character(0, 1, 0, line, 24));
+            }
             Checks.due("no line below it", Leadchapel.NONE, full.character(0, 1, 0, 6, 0));
+        });
+        Checks.holds(34, "of its words what their places print, of all 60", () -> {
+            House x = Shop.withBook(2, 1, 24, 6, 2);
+            Shop.copyMany(x, 0, 'a', 60);
+            Shop.setAll(x, 0);
+            x.lock(0, 0, 0);
+            x.lock(0, 1, 1);
+            printFormes(x, 0, 2);
+            x.bind(0);
+            x.cancel(0, 0, 0);
+            Checks.due("words", 60, x.page(0, 0, 2));
+            Checks.dueText("the first line", "a  a a a a a a a a a a a", Checks.printed(x, 0, 0, 0, 0));
+            Checks.dueText("the last line", "a a a a a a a a", Checks.printed(x, 0, 0, 0, 5));
         });
         Checks.holds(34, "with as many blanks as there are units between each two of them", () -> {
             House x = Shop.withBook(2, 1, 10, 1, 2);
@@ -453,6 +514,7 @@ public final class EdgesOfPaperAndCopiesTests {
                 duePrinted(Checks.sort(from), Checks.sort(from) + 1, true);
             }
         });
+        Checks.holds(34, "as it is printed in a copy", EdgesOfPaperAndCopiesTests::printedStates);
         Checks.holds(34, "with all places as they were wanted", () -> {
             House x = Shop.withBook(2, 1, 10, 1, 2);
             x.cast(26, 1);
@@ -497,6 +559,39 @@ public final class EdgesOfPaperAndCopiesTests {
         Checks.dueText("for " + wanted + " of box " + lettersOf(box), due, Checks.printed(x, 1, 1, 0, 0));
     }
 
+    /** Dots that are corrected, one behind each sheet, on both pages of the outer forme. */
+    private static void printedStates() {
+        House x = Shop.withBook(2, 1, 10, 1, 5);
+        Checks.copy(x, 0, "ab/x/x/cd");
+        Shop.setAll(x, 0);
+        x.lock(0, 0, 0);
+        x.lock(0, 1, 1);
+        x.men(0, 1);
+        x.print(0, 0, 0);
+        x.pass(1);
+        int[][] places = {{0, 0}, {3, 1}, {0, 1}, {3, 0}};
+        String letters = "adbc";
+        for (int sheet = 0; sheet < 4; sheet++) {
+            x.pass(1);
+            x.cast(Checks.sort(letters.charAt(sheet)), 1);
+            Checks.due("state", sheet + 1, x.correct(0, places[sheet][0], places[sheet][1]));
+        }
+        x.pass(1);
+        Shop.printOut(x, 0, 1);
+        x.putAway(0, 0, 0);
+        x.bind(0);
+        String[] first = {"..", "a.", "a.", "ab", "ab"};
+        String[] last = {"..", "..", ".d", ".d", "cd"};
+        for (int copy = 0; copy < 5; copy++) {
+            Checks.dueText("page 0 of copy " + copy, first[copy], Checks.printed(x, 0, copy, 0, 0));
+            Checks.dueText("page 3 of copy " + copy, last[copy], Checks.printed(x, 0, copy, 3, 0));
+            Checks.dueText("page 1 of copy " + copy, ".", Checks.printed(x, 0, copy, 1, 0));
+        }
+        x.exchange(0, 0, 3, 1);
+        Checks.dueText("an exchanged leaf", ".d", Checks.printed(x, 0, 0, 3, 0));
+        Checks.dueText("the other leaf", "..", Checks.printed(x, 0, 0, 0, 0));
+    }
+
     private static String turnedFor(char box) {
         return String.valueOf("unqbpd".charAt("nubqdp".indexOf(box)));
     }
@@ -530,6 +625,21 @@ public final class EdgesOfPaperAndCopiesTests {
             x.exchange(0, 0, 23, 0);
             x.exchange(0, 0, 23, 1);
             Checks.due("with both leaves exchanged", 1, x.alike(0, 0));
+            House two = locked(1, 4);
+            two.men(1, 1);
+            two.print(1, 0, 0);
+            two.pass(3);
+            two.correct(0, 0, 0);
+            two.pass(2);
+            Shop.printOut(two, 0, 1);
+            two.bind(0);
+            Checks.due("two of each state", 2, two.alike(0, 0));
+            two.exchange(0, 0, 2, 0);
+            Checks.due("with another first leaf", 1, two.alike(0, 0));
+            Checks.due("without it", 1, two.alike(0, 1));
+            two.exchange(0, 1, 3, 1);
+            Checks.due("with the other last leaf", 2, two.alike(0, 3));
+            Checks.due("with the first leaf, or the last one", 2, two.alike(0, 2));
             House y = bound(1, 4);
             y.cancel(0, 2, 1);
             Checks.due("with a cancelled leaf", 2, y.alike(0, 3));

@@ -84,6 +84,19 @@ public final class EdgesOfScholarTests {
             bringThrough(all, 0);
             bringTo(all, 1, Leadchapel.GONE, 1);
             Checks.due("all eight", 8, all.shared(0, 0, 1));
+            House full = house(1);
+            for (int i = 0; i < 9; i++) {
+                full.cast(0, 40);
+            }
+            full.cast(0, 32);
+            full.wear(399);
+            full.wear(0);
+            bringThrough(full, 0);
+            full.wear(399);
+            bringThrough(full, 1);
+            Checks.due("the last of 400 pieces", 1001, full.shared(0, 0, 1));
+            dueOrders(full, 0, 1);
+            Checks.due("ahead by the last of 400 pieces", 1, full.ahead(0, 0, 1));
         });
         Checks.holds(37, "told by how it was when it was DONE", EdgesOfScholarTests::seenWhenDone);
         Checks.holds(37, "1000 more, if both were locked, and in the same skeleton", () -> {
@@ -150,6 +163,16 @@ public final class EdgesOfScholarTests {
                 Checks.due("8 formes", 40320, ask(x, 2, anew));
                 Checks.due("2 formes again", 2, ask(x, 0, anew));
             });
+            Checks.holds(promise, "of all formes of a book, and of no other one", () -> {
+                House x = chain(8);
+                x.book(2, 4, 10, 1, 2);
+                x.book(2, 2, 10, 1, 2);
+                Checks.due("8 formes in a row", 1, ask(x, 0, anew));
+                Checks.due("another book", 40320, ask(x, 1, anew));
+                Checks.due("the first one again", 1, ask(x, 0, anew));
+                Checks.due("a smaller one", 24, ask(x, 2, anew));
+                Checks.due("4 of 8 formes", 1680, ask(chain(4), 0, anew));
+            });
             Checks.holds(promise, "each forme is ahead of those of which it is surely ahead", () -> {
                 House x = chain(8);
                 Checks.due("8 formes in a row", 1, ask(x, 0, anew));
@@ -209,6 +232,10 @@ public final class EdgesOfScholarTests {
             Checks.due("one of the others", 0, y.ahead(0, 0, 7));
             Checks.due("two of the others", 0, y.ahead(0, 0, 1));
         });
+        Checks.holds(40, "1 if it is in all orders, by formes that are between", () -> {
+            dueBetween("aaaa/aaaa/bbbb/aaaa/bbbb/aaaa/aaaa/bbbb", 0, 1);
+            dueBetween("aaaa/aaaa/aaaa/bbbb/bbbb/aaaa/aaaa/bbbb", 1, 0);
+        });
         Checks.holds(40, "and was less worn in it", () -> {
             House x = house(2);
             x.wear(0);
@@ -221,6 +248,33 @@ public final class EdgesOfScholarTests {
             Checks.due("worn by one more, too", -1, x.ahead(0, 1, 3));
             dueOrders(x, 0, 8);
         });
+    }
+
+    /** One forme has pieces of a, the next one of both, and the forme 2 of b, so that the first and it share none. */
+    private static void dueBetween(String copy, int first, int between) {
+        House x = Shop.withBook(2, 2, 10, 1, 2);
+        x.cast(0, 8);
+        x.cast(1, 8);
+        Checks.copy(x, 0, copy);
+        x.castOff(0, 50);
+        for (int piece = 0; piece < 8; piece++) {
+            x.wear(piece);
+        }
+        bringTo(x, first, Leadchapel.GONE, 0);
+        for (int piece = 0; piece < 16; piece++) {
+            x.wear(piece);
+        }
+        bringTo(x, between, Leadchapel.GONE, 1);
+        for (int piece = 8; piece < 16; piece++) {
+            x.wear(piece);
+        }
+        bringTo(x, 2, Leadchapel.GONE, 2);
+        Checks.due("shared by the first and the last", 0, x.shared(0, first, 2) % 1000 == 0 ? 0 : 1);
+        Checks.due("the first is ahead of the one between", 1, x.ahead(0, first, between));
+        Checks.due("and of the last one", 1, x.ahead(0, first, 2));
+        Checks.due("the last one is in no order ahead", -1, x.ahead(0, 2, first));
+        Checks.due("the forme 3 is nowhere", 0, x.ahead(0, first, 3));
+        dueOrders(x, 0, 4);
     }
 
     // ---- promise 41
@@ -260,10 +314,13 @@ public final class EdgesOfScholarTests {
             Checks.due("0 and 7", 1, pages(10, "abcdefg do/do", 0, 1).hands(0));
         });
         Checks.holds(41, "it did not end ahead of a word that does not fit", () -> {
-            Checks.due("2 blanks are filled, and 4 units missing", 1, pages(10, "do a bcdefgh/do", 0, 1, 1).hands(0));
-            House x = pages(24, "go do/do abcdefgh abcdefgh ijklmnop", 2, 1);
+            House x = pages(10, "do/do abcdefgh", 0, 1);
             Checks.due("the line is cut", 1, x.line(0, 1, 0, 3));
-            Checks.due("an unlike word in a line that is cut", 1, x.hands(0));
+            Checks.due("and 7 units are missing", 7, x.line(0, 1, 0, 2));
+            Checks.due("the other form in a line that is cut", 1, x.hands(0));
+            House y = pages(10, "do/do/abcdefgh", 0, 1);
+            Checks.due("the line is not cut", 0, y.line(0, 1, 0, 3));
+            Checks.due("the other form in a line that is not", 2, y.hands(0));
         });
         Checks.holds(41, "and its page is not crowded", () -> {
             House x = pages(10, "do/abc ab/do");
@@ -282,13 +339,61 @@ public final class EdgesOfScholarTests {
             Checks.due("the other spelling", 2, pages(10, "go/go", 0, 2).hands(0));
             Checks.due("two spellings", 1, pages(10, "do/go", 0, 3).hands(0));
         });
+        Checks.holds(41, "in a loose line, of all of a page", () -> {
+            House x = pages(10, "do", 0);
+            x.book(2, 1, 10, 3, 2);
+            x.book(2, 1, 10, 1, 2);
+            Checks.copy(x, 1, "do/ab/ef/ab/cd/do");
+            Checks.copy(x, 2, "do/do");
+            x.set(1, 0, 0);
+            x.set(1, 1, 1);
+            x.set(2, 0, 0);
+            x.set(2, 1, 2);
+            Checks.due("the first line of one, the last line of the other", 2, x.hands(1));
+            Checks.due("of a book with one page", 1, x.hands(0));
+            Checks.due("once more", 2, x.hands(1));
+            Checks.due("of another book", 1, x.hands(2));
+            House y = pages(10, "do", 0);
+            y.book(2, 1, 10, 2, 2);
+            Checks.copy(y, 1, "do/do/do/ab");
+            y.set(1, 0, 0);
+            y.set(1, 1, 1);
+            Checks.due("two lines of one, and a line of the other", 2, y.hands(1));
+            House z = pages(10, "ab/ab/do/do", 0, 0, 0, 1);
+            z.book(2, 1, 10, 1, 2);
+            Checks.copy(z, 1, "do/do");
+            z.set(1, 0, 0);
+            z.set(1, 1, 2);
+            Checks.due("the last two of four pages", 2, z.hands(0));
+            Checks.due("two pages of another book", 1, z.hands(1));
+        });
+        Checks.holds(41, "pages that are alike need not be by one hand", EdgesOfScholarTests::handsInARing);
         Checks.holds(41, "the least number into which all pages that are set can be parted", () -> {
             Checks.due("four of each two", 4, pages(24, "go do/go do/go do/go do/go do/go do", 0, 1, 2, 3, 3, 2)
                     .hands(0));
             Checks.due("three", 3, pages(24, "go do/go do/go do/go do", 0, 1, 2, 1).hands(0));
             Checks.due("the first is like all", 2, pages(24, "go/do/do", 1, 0, 1).hands(0));
+            Checks.due("two and two", 2, pages(10, "do/go/do/go", 0, 0, 1, 2).hands(0));
+            Checks.due("two and two, the other way", 2, pages(10, "do/go/go/do", 1, 2, 0, 0).hands(0));
             Checks.due("a page that fits to both", 2, pages(24, "do/do/ab", 0, 1, 1).hands(0));
         });
+    }
+
+    /** Each of six pages is unlike two others; the two that are alike, and come first, are by two hands all the same. */
+    private static void handsInARing() {
+        House x = new House();
+        for (String pair : new String[] {"a ab", "c cd", "e ef", "g gh", "i ij", "k kl"}) {
+            Checks.spelling(x, pair);
+        }
+        x.hand(0, 0, 0);
+        x.hand(63, 0, 0);
+        x.book(4, 1, 24, 1, 2);
+        Checks.copy(x, 0, "k a/e g/a c/c e/g i/i k");
+        int[] by = {0, 1, 1, 0, 0, 1};
+        for (int page = 0; page < 6; page++) {
+            x.set(0, page, by[page]);
+        }
+        Checks.due("hands", 2, x.hands(0));
     }
 
     // ---- promise 42

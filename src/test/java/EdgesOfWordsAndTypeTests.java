@@ -43,6 +43,13 @@ public final class EdgesOfWordsAndTypeTests {
             Checks.due("type of another house", 1, y.cast(3, 1));
             Checks.refuses(y, "book of another house", Checks.INDEX, () -> y.page(0, 0, 0));
         });
+        Checks.holds(1, "at most 512 calls", () -> {
+            House x = new House();
+            for (int call = 1; call < House.MOST_CALLS; call++) {
+                Checks.due("call " + call, 0, x.pass(1));
+            }
+            Checks.due("the call 512", 511, x.hour());
+        });
         Checks.holds(1, "NONE = -1, OPEN = 0, LOCKED = 1, ON = 2, DONE = 3, GONE = 4", () -> {
             int[] all = {Leadchapel.NONE, Leadchapel.OPEN, Leadchapel.LOCKED, Leadchapel.ON, Leadchapel.DONE,
                 Leadchapel.GONE};
@@ -459,6 +466,7 @@ public final class EdgesOfWordsAndTypeTests {
         });
         Checks.holds(10, "numbered from 0, at most 4", () -> {
             House x = new House();
+            Checks.refuses(x, "skips 10", Checks.ARGUMENT, () -> x.hand(0, 0, 10));
             for (int number = 0; number < 4; number++) {
                 Checks.due("hand", number, x.hand(63, 9, 9));
             }
