@@ -91,18 +91,20 @@ public final class EdgesOfBooksAndPagesTests {
         return x;
     }
 
+    private static String words(int many) {
+        return "b" + " b".repeat(many - 1);
+    }
+
     private static void copy() {
         Checks.holds(12, "it would have more than 60 words", () -> {
-            for (int had : new int[] {40, 41, 59, 60}) {
+            Checks.due("20 more than 40", 60, Checks.copy(withWords(40), 0, words(20)));
+            for (int had = 41; had <= 60; had++) {
                 House x = withWords(had);
-                Checks.type(x, "b b b b b b b b b b b b b b b b b b b b".substring(0, 2 * Math.min(61 - had, 20) - 1));
-                if (had > 40) {
-                    Checks.refuses(x, "61 words", Checks.STATE, () -> x.copy(0));
-                    x.wipe();
-                    Checks.type(x, had == 60 ? "" : "b b b b b b b b b b b b b b b b b b b".substring(0, 2 * (60 - had) - 1));
-                }
+                Checks.type(x, words(61 - had));
+                Checks.refuses(x, "61 words, from " + had, Checks.STATE, () -> x.copy(0));
+                x.wipe();
                 if (had < 60) {
-                    Checks.due("60 words", 60, x.copy(0));
+                    Checks.due("60 words, from " + had, 60, Checks.copy(x, 0, words(60 - had)));
                 }
             }
         });
@@ -269,7 +271,7 @@ public final class EdgesOfBooksAndPagesTests {
 
     private static void castOff() {
         Checks.holds(14, "percent: 50 to 150", () -> {
-            Checks.takes(50, 150, () -> Shop.withCopy("a"), (x, percent) -> Checks.due("end", 1, x.castOff(0, percent)));
+            Checks.takes(50, 150, () -> Shop.withCopy("a"), (x, value) -> Checks.due("end", 1, x.castOff(0, value)));
             Checks.refusesBeyond(50, 150, Checks.ARGUMENT, () -> Shop.withCopy("a"), (x, value) -> x.castOff(0, value));
         });
         Checks.holds(14, "no such book", () -> Checks.refusesBeyond(0, 0, Checks.INDEX, () -> Shop.withCopy("a"),
@@ -305,13 +307,15 @@ public final class EdgesOfBooksAndPagesTests {
         Checks.holds(14, "p times as many units as a page holds, or more", () -> {
             int[][] byPercent = {{50, 8}, {60, 9}, {70, 11}, {80, 12}, {100, 15}, {150, 23}};
             for (int[] both : byPercent) {
-                Checks.due("words of two units by " + both[0], both[1], withPagesOfWords(10, 1, 40).castOff(0, both[0]));
+                House x = withPagesOfWords(10, 1, 40);
+                Checks.due("words of two units by " + both[0], both[1], x.castOff(0, both[0]));
             }
         });
         Checks.holds(14, "the measure times its lines times the percent by 100, rounded down", () -> {
             int[][] byPercent = {{59, 8}, {69, 9}, {79, 11}, {89, 12}, {99, 14}, {149, 21}};
             for (int[] both : byPercent) {
-                Checks.due("words of two units by " + both[0], both[1], withPagesOfWords(10, 1, 40).castOff(0, both[0]));
+                House x = withPagesOfWords(10, 1, 40);
+                Checks.due("words of two units by " + both[0], both[1], x.castOff(0, both[0]));
             }
             Checks.due("13 units by 77 are 10", 15, withPagesOfWords(13, 1, 40).castOff(0, 77));
             Checks.due("two lines of 11 units by 50 are 11", 17, withPagesOfWords(11, 2, 60).castOff(0, 50));
@@ -632,7 +636,7 @@ public final class EdgesOfBooksAndPagesTests {
             dueLine("1 of the second one, of 2", line(12, 0, "abcde cc xxxxxxxx", GROWS, "cc ccc"), 2, 1, 1, 2);
             dueLine("both", line(14, 0, "abcde cc xxxxxxxx", GROWS, "cc ccc"), 2, 0, 1, 3);
             dueLine("a word alone has no blank", line(10, 0, "abcde xxxxxxxx", GROWS), 1, 2, 1, 1);
-            dueLine("one that is long is not made long again", line(12, 2, "b abcdefg hijklmno", GROWS, "b bc"), 2, 0, 1, 2);
+            dueLine("no long one again", line(12, 2, "b abcdefg hijklmno", GROWS, "b bc"), 2, 0, 1, 2);
             dueLine("one that is long, alone", line(10, 1, "do abcdefgh", "do doe"), 1, 7, 1, 1);
             dueLine("a word of no spelling", line(10, 0, "do abcdefgh", "ab abc"), 1, 8, 1, 0);
         });

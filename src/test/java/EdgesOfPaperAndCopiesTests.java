@@ -3,7 +3,7 @@ public final class EdgesOfPaperAndCopiesTests {
     private EdgesOfPaperAndCopiesTests() {
     }
 
-    /** A house with a book of sheets of two leaves, "ab" on its first page, all set; as many formes locked as can be. */
+    /** A house with a book of sheets of two leaves, "ab" on its first page, all set, and six formes locked at most. */
     private static House locked(int sheets, int edition) {
         House x = Shop.withBook(2, sheets, 10, 1, edition);
         Checks.castAll(x, "ab", 9);
@@ -531,7 +531,7 @@ public final class EdgesOfPaperAndCopiesTests {
         });
     }
 
-    /** A piece of a sort that was put into a box prints its own letters, or when it is turned those that were wanted. */
+    /** A piece that was put into a box prints its own letters, or when it is turned the one that was wanted. */
     private static void duePrinted(int sort, int box, boolean isTurned) {
         House x = new House();
         x.hand(0, sort == box ? 0 : 1, 0);

@@ -379,7 +379,7 @@ public final class EdgesOfScholarTests {
         });
     }
 
-    /** Each of six pages is unlike two others; the two that are alike, and come first, are by two hands all the same. */
+    /** Each of six pages is unlike two others; the first two, which are alike, are by two hands all the same. */
     private static void handsInARing() {
         House x = new House();
         for (String pair : new String[] {"a ab", "c cd", "e ef", "g gh", "i ij", "k kl"}) {

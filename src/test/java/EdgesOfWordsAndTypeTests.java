@@ -1,4 +1,4 @@
-/** Each boundary case of promises 1 to 10, by the sentence that names it: a new object, the tape, words, type, hands. */
+/** Each boundary case of promises 1 to 10, by the sentence that names it: a new object, words, type, hands. */
 public final class EdgesOfWordsAndTypeTests {
     private static final String FULL = "a b c d e f g h i j k l m n o p q r s t";
     private static final String ALLOWED = "abcdefghijklmnopqrstuvwxyz /";
@@ -233,7 +233,8 @@ public final class EdgesOfWordsAndTypeTests {
 
     private static void spelling() {
         Checks.holds(5, "not a text of two words with a blank between them", () -> {
-            String[] bad = {"", "a", "a ", "a/ab", "a ab c", "a ab/c", " a ab", "a  ab", "a ab ", "a /ab", "a abcdefghi"};
+            String[] bad = {"", "a", "a ", "a/ab", "a ab c", "a ab/c", " a ab", "a  ab", "a ab ", "a /ab",
+                "a abcdefghi"};
             for (String text : bad) {
                 refusesSpelling(new House(), text, Checks.ARGUMENT);
             }
@@ -254,7 +255,8 @@ public final class EdgesOfWordsAndTypeTests {
             House x = new House();
             Checks.spelling(x, "ab abc");
             Checks.spelling(x, "d de");
-            for (String text : new String[] {"ab xyz", "abc wxyz", "x ab", "x abc", "ab abc", "d def", "de def", "x de"}) {
+            String[] known = {"ab xyz", "abc wxyz", "x ab", "x abc", "ab abc", "d def", "de def", "x de"};
+            for (String text : known) {
                 refusesSpelling(x, text, Checks.ARGUMENT);
             }
             Checks.due("other words", 2, Checks.spelling(x, "a abcd"));
