@@ -1625,7 +1625,7 @@ public final class Leadchapel {
         int fewestHands(Book book) {
             int pages = readPages(book);
             int many = pages == 0 ? 0 : 1;
-            while (many < pages && !canPart(0, 0, tightPages(pages, many), many)) {
+            while (many < pages && !canPart(this, 0, 0, tightPages(pages, many), many)) {
                 many++;
             }
             return many;
@@ -1668,20 +1668,23 @@ public final class Leadchapel {
             return pages;
         }
 
-        /** Whether those of a set of pages, from one on, find room in the parts, some of which are used already. */
-        private boolean canPart(int page, int used, int set, int most) {
+        /**
+         * Whether those of a set of pages, from one on, find room in the parts, some of which are used already. It
+         * calls itself for the next page, and for none behind the last one.
+         */
+        private static boolean canPart(Scholar its, int page, int used, int set, int most) {
             if (page >= MOST_PAGES) {
                 return true;
             }
             if ((set & 1 << page) == 0) {
-                return canPart(page + 1, used, set, most);
+                return canPart(its, page + 1, used, set, most);
             }
             boolean can = false;
             for (int part = 0; part <= used && part < most && !can; part++) {
-                if ((parts[part] & unlike[page]) == 0) {
-                    parts[part] |= 1 << page;
-                    can = canPart(page + 1, Math.max(used, part + 1), set, most);
-                    parts[part] &= ~(1 << page);
+                if ((its.parts[part] & its.unlike[page]) == 0) {
+                    its.parts[part] |= 1 << page;
+                    can = canPart(its, page + 1, Math.max(used, part + 1), set, most);
+                    its.parts[part] &= ~(1 << page);
                 }
             }
             return can;

@@ -1,6 +1,7 @@
 import java.util.ArrayList;
 import java.util.HashSet;
 import java.util.List;
+import java.util.Map;
 import java.util.Set;
 import java.util.function.Consumer;
 import java.util.function.IntUnaryOperator;
@@ -192,31 +193,45 @@ final class Checks {
         return told;
     }
 
-    /** All that a house answers; it is made anew whenever it was given as many calls as are promised. */
+    /** All that a house answers, and what comes of it. */
     private static String told(Supplier<House> made) {
         return new Teller(made).all.toString();
+    }
+
+    /** Each of these leaves the house as it was: all that it answers, and what comes of it. */
+    static void changeNothing(Supplier<House> made, Map<String, Consumer<House>> asking) {
+        String due = told(made);
+        asking.forEach((what, call) -> {
+            checked++;
+            String got = told(() -> {
+                House x = made.get();
+                call.accept(x);
+                return x;
+            });
+            if (!due.equals(got)) {
+                fail(what + " was asked, and changed something");
+            }
+        });
     }
 
     private static final class Teller {
         final StringBuilder all = new StringBuilder();
         private final Supplier<House> made;
+        private final Asked asked;
         private House now;
 
         Teller(Supplier<House> made) {
             this.made = made;
-            now = made.get();
-            if (now.callsLeft() <= MOST_FUTURE) {
-                throw new AssertionError("a test makes too many calls ahead of one that is refused");
+            asked = new Asked(made);
+            if (made.get().callsLeft() <= MOST_FUTURE) {
+                throw new AssertionError("a test makes too many calls ahead of what comes");
             }
             tellHouse();
             tellFutures();
         }
 
         private int ask(ToIntFunction<House> call) {
-            if (now.callsLeft() == 0) {
-                now = made.get();
-            }
-            return call.applyAsInt(now);
+            return asked.ask(call);
         }
 
         private int askIfThere(ToIntFunction<House> call) {

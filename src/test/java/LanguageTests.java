@@ -12,7 +12,7 @@ import java.util.TreeSet;
 import java.util.regex.Matcher;
 import java.util.regex.Pattern;
 
-/** The face of the document, and those rules of ../shared/LANGUAGE.md that can be read from the source. */
+/** The face of the document, and those rules of ../shared/LANGUAGE.md that can be read from the class as it stands. */
 public final class LanguageTests {
     private static final Path SOURCE = Path.of("src/main/java/Leadchapel.java");
     private static final Path DOCUMENT = Path.of("../shared/DOC.md");
@@ -121,41 +121,11 @@ public final class LanguageTests {
     private static void source() throws IOException {
         String code = Files.readString(SOURCE);
         holds(code.chars().allMatch(sign -> sign == '\n' || sign >= ' ' && sign < 127), "plain signs alone");
-        String bare = code.replaceAll("(?s)/\\*.*?\\*/", "").replaceAll("//.*", "");
-        String[] ruledOut = {
-            "->", "::", "\\bimport\\b", "\\bpackage\\b", "\\btry\\b", "\\bcatch\\b", "\\bfinally\\b", "\\bassert\\b",
-            "\\bsynchronized\\b", "\\bvolatile\\b", "\\bnative\\b", "\\bvar\\b", "\\binstanceof\\b", "\\bthread\\b",
-            "\" *\\+", "\\+ *\"", "\\bSystem\\.(?!arraycopy)", "\\bInteger\\.(?!bitCount)", "\\bMath\\.(?!min|max)",
-            "Exact", "\\bstatic *\\{", "\\bprotected\\b", "\\bdouble\\b", "\\bfloat\\b", "\\bString\\b",
-            "\\b(equals|hashCode|toString|getClass|clone)\\b", "while *\\(true", "\\bRandom\\b"
-        };
-        for (String pattern : ruledOut) {
-            Matcher found = Pattern.compile(pattern).matcher(bare);
-            holds(!found.find(), "without " + pattern);
-        }
-        for (String line : bare.split("\n")) {
-            if (line.contains("new ") && line.contains("throw ")) {
-                holds(line.matches(" *throw new (IllegalState|IllegalArgument|IndexOutOfBounds)Exception\\(\"[^\"]*\"\\);"),
-                        "a written text: " + line);
-            }
+        for (String line : code.split("\n")) {
             holds(line.length() <= 120, "a line of at most 120 signs: " + line);
         }
-        methodLengths(bare);
-    }
-
-    private static void methodLengths(String bare) {
-        int begin = -1;
-        String name = "";
-        String[] lines = bare.split("\n");
-        for (int at = 0; at < lines.length; at++) {
-            if (lines[at].matches(" {4}(?: {4})?[\\w\\[\\] ]+\\(.*") && !lines[at].endsWith(";")) {
-                begin = at;
-                name = lines[at].trim();
-            }
-            if (begin >= 0 && lines[at].matches(" {4}(?: {4})?\\}")) {
-                holds(at - begin <= 60, "a short method: " + name);
-                begin = -1;
-            }
+        for (String broken : new SourceRules(SOURCE).broken) {
+            holds(false, broken);
         }
     }
 
