@@ -11,6 +11,7 @@ import java.util.function.ToIntFunction;
 public final class AskingTests {
     private static final List<Consumer<House>> LIFE = List.of(
             AskingTests::prepare,
+            AskingTests::thirdBook,
             x -> Checks.copy(x, 0, "do ab/go fit ab go ef/un do/go fl"),
             x -> x.castOff(0, 60),
             x -> Shop.setPages(x, 0, 0, 8),
@@ -30,19 +31,30 @@ public final class AskingTests {
     private AskingTests() {
     }
 
-    /** Type, two spellings, hands that like other forms and skip, a book of two sheets, and another one. */
+    /** Type, two spellings, hands that like other forms, drop and skip, a book of two sheets, and another one. */
     private static void prepare(House x) {
         Checks.spelling(x, "do doe");
         Checks.spelling(x, "go gooee");
         Checks.castAll(x, "abdefgilotu", 3);
         x.cast(26, 1);
-        x.hand(1, 2, 2);
+        x.hand(1, 7, 7);
         x.hand(0, 0, 0);
         x.book(2, 2, 10, 2, 3);
         x.book(2, 1, 12, 6, 2);
-        x.men(1, 1);
-        x.type('a', 1);
+        x.men(0, 2);
+        x.men(2, 2);
+        x.type('/', 1);
+    }
+
+    /** A book whose outer forme can be printed, and whose other pages, when they are set, have ten chances to skip. */
+    private static void thirdBook(House x) {
         x.wipe();
+        x.book(2, 1, 24, 1, 2);
+        Shop.copyMany(x, 2, 'z', 24);
+        x.castOff(2, 50);
+        x.set(2, 0, 1);
+        x.set(2, 3, 1);
+        x.lock(2, 0, 4);
     }
 
     private static void lockAll(House x) {
@@ -111,7 +123,7 @@ public final class AskingTests {
     private static void askAll() {
         asking("fault", 1, 3, (x, one, other) -> x.fault());
         asking("piece", 12, 3, (x, one, other) -> x.piece(3 * one, other));
-        asking("box", 28, 2, (x, one, other) -> x.box(one, other));
+        asking("box", 27, 2, (x, one, other) -> x.box(one, other));
         asking("page", 8, 9, (x, one, other) -> x.page(0, one, other));
         asking("line", 16, 5, (x, one, other) -> x.line(0, one / 2, one % 2, other));
         asking("place", 24, 3, (x, one, other) -> x.place(0, one / 3, one % 3, other));

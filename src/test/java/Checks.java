@@ -435,16 +435,16 @@ final class Checks {
             }
             for (int hour = 0; hour < 3; hour++) {
                 tryOut(x -> x.pass(1));
-                for (int i = 0; i < 3; i++) {
-                    int press = i;
-                    tryOut(x -> x.account(2, press));
-                    tryOut(x -> x.account(3, press));
-                    tryOut(x -> x.account(4, press));
-                }
             }
             for (int i = 0; i < 3; i++) {
                 int press = i;
                 tryOut(x -> x.men(press, 0));
+                tryOut(x -> x.account(2, press));
+                tryOut(x -> x.account(3, press));
+            }
+            for (int i = 0; i < 4; i++) {
+                int stock = i;
+                tryOut(x -> x.account(4, stock));
             }
         }
 

@@ -594,6 +594,21 @@ public final class EdgesOfBooksAndPagesTests {
             x.set(0, 2, 0);
             Checks.due("the third chance, which skips", 2, x.page(0, 2, 2));
         });
+        Checks.holds(15, "as they were ahead of it, not as at first", () -> {
+            House x = new House();
+            x.hand(0, 0, 3);
+            x.book(2, 1, 10, 1, 2);
+            Checks.copy(x, 0, "a a cdefg b b/cdefg i i j k");
+            x.castOff(0, 100);
+            x.set(0, 0, 0);
+            dueCrowded("the first chance", x, 3, 3, 0, 0);
+            x.set(0, 1, 0);
+            Checks.due("the second chance, crowded", 1, x.page(0, 1, 4));
+            Checks.due("words of the crowded page", 2, x.page(0, 1, 2));
+            x.set(0, 2, 0);
+            Checks.due("the third chance, which skips", 3, x.page(0, 2, 2));
+            Checks.due("through all", 10, x.page(0, 2, 3));
+        });
         Checks.holds(15, "If the book is cast off", () -> {
             House x = Shop.withCopy("ab/cd/ef/gh/ij/kl");
             Shop.setAll(x, 0);

@@ -514,6 +514,7 @@ public final class EdgesOfPaperAndCopiesTests {
                 duePrinted(Checks.sort(from), Checks.sort(from) + 1, true);
             }
         });
+        Checks.holds(34, "of its sort, in a place that is corrected, too", EdgesOfPaperAndCopiesTests::printedWrongly);
         Checks.holds(34, "as it is printed in a copy", EdgesOfPaperAndCopiesTests::printedStates);
         Checks.holds(34, "with all places as they were wanted", () -> {
             House x = Shop.withBook(2, 1, 10, 1, 2);
@@ -557,6 +558,32 @@ public final class EdgesOfPaperAndCopiesTests {
         x.bind(1);
         String due = isTurned && sort == box ? wanted : lettersOf(sort);
         Checks.dueText("for " + wanted + " of box " + lettersOf(box), due, Checks.printed(x, 1, 1, 0, 0));
+    }
+
+    /** A piece of m in the box of n, an o in that of p, and a b in that of c are taken for corrections. */
+    private static void printedWrongly() {
+        House x = Shop.withBook(2, 1, 10, 1, 2);
+        x.hand(0, 1, 0);
+        x.book(2, 1, 10, 1, 2);
+        Checks.castAll(x, "mobu", 1);
+        Checks.copy(x, 0, "mob");
+        Checks.copy(x, 1, "npc");
+        Shop.setAll(x, 0);
+        Shop.setAll(x, 1);
+        Checks.due("a turned one for n", 1, x.place(1, 0, 0, 2));
+        Checks.due("none for p", Leadchapel.NONE, x.place(1, 0, 1, 0));
+        Shop.bringThrough(x, 0, 0, 1);
+        x.lock(1, 0, 0);
+        x.lock(1, 1, 1);
+        for (int place = 0; place < 3; place++) {
+            Checks.due("state", 0, x.correct(1, 0, place));
+            Checks.due("the piece for place " + place, place, x.place(1, 0, place, 0));
+            Checks.due("turned", 0, x.place(1, 0, place, 2));
+        }
+        Shop.printOut(x, 1, 0);
+        Shop.printOut(x, 1, 1);
+        x.bind(1);
+        Checks.dueText("their own letters", "mob", Checks.printed(x, 1, 0, 0, 0));
     }
 
     /** Dots that are corrected, one behind each sheet, on both pages of the outer forme. */

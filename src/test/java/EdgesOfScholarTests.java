@@ -236,6 +236,14 @@ public final class EdgesOfScholarTests {
             dueBetween("aaaa/aaaa/bbbb/aaaa/bbbb/aaaa/aaaa/bbbb", 0, 1);
             dueBetween("aaaa/aaaa/aaaa/bbbb/bbbb/aaaa/aaaa/bbbb", 1, 0);
         });
+        Checks.holds(40, "1 if it is in all orders, by all that are between", () -> {
+            dueRow(8, 0, 1, 2, 3, 4, 5, 6, 7);
+            dueRow(8, 7, 6, 5, 4, 3, 2, 1, 0);
+            dueRow(8, 3, 7, 0, 5, 2, 6, 1, 4);
+            dueRow(8, 4, 1, 6, 2, 5, 0, 7, 3);
+            dueRow(5, 0, 1, 2, 3, 4, 5, 6, 7);
+            dueRow(5, 7, 2, 6, 0, 4, 1, 3, 5);
+        });
         Checks.holds(40, "and was less worn in it", () -> {
             House x = house(2);
             x.wear(0);
@@ -275,6 +283,43 @@ public final class EdgesOfScholarTests {
         Checks.due("the last one is in no order ahead", -1, x.ahead(0, 2, first));
         Checks.due("the forme 3 is nowhere", 0, x.ahead(0, first, 3));
         dueOrders(x, 0, 4);
+    }
+
+    /**
+     * Eight formes of two words each, of which so many are brought through in this order, each with a piece of the one
+     * ahead of it, and a piece for the one behind it, so that no others share a piece.
+     */
+    private static void dueRow(int many, int... order) {
+        House x = Shop.withBook(2, 4, 10, 1, 2);
+        Checks.castAll(x, "abcdefghi", 1);
+        char[] first = new char[8];
+        for (int at = 0; at < 8; at++) {
+            first[order[at]] = (char) ('a' + at);
+        }
+        for (int sheet = 0; sheet < 4; sheet++) {
+            String outer = "" + first[2 * sheet] + (char) (first[2 * sheet] + 1) + "zz";
+            String inner = "" + first[2 * sheet + 1] + (char) (first[2 * sheet + 1] + 1) + "zz";
+            Checks.copy(x, 0, outer + "/" + inner + "/zzzz/zzzz");
+        }
+        x.castOff(0, 50);
+        for (int at = 0; at < many; at++) {
+            x.wear(at);
+            x.wear(at + 1);
+            bringThrough(x, order[at]);
+        }
+        for (int one = 0; one < 8; one++) {
+            for (int other = 0; other < 8; other++) {
+                if (one != other) {
+                    int due = Math.max(one, other) >= many ? 0 : one < other ? 1 : -1;
+                    Checks.due("number " + one + " ahead of " + other, due, x.ahead(0, order[one], order[other]));
+                }
+            }
+        }
+        int free = 1;
+        for (int left = many + 1; left <= 8; left++) {
+            free *= left;
+        }
+        dueOrders(x, 0, free);
     }
 
     // ---- promise 41
