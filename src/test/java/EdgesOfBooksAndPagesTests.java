@@ -265,6 +265,25 @@ public final class EdgesOfBooksAndPagesTests {
         Checks.due("a part of 7 units, or 4 and 4", 2, x.page(1, 0, 3));
         x.set(1, 1, 1);
         Checks.due("a part up to 14 units, or 4 and 4 and 3 and 3", 4, x.page(1, 1, 3) + x.page(1, 1, 5));
+        followedBySkips();
+    }
+
+    /** A line has the long form three times, and the short one last; the eye skips from a form to the same one alone. */
+    private static void followedBySkips() {
+        House x = new House();
+        Checks.spelling(x, "do doe");
+        x.hand(1, 0, 0);
+        x.hand(0, 0, 1);
+        x.book(2, 1, 14, 1, 2);
+        x.book(2, 1, 14, 1, 2);
+        Checks.copy(x, 0, "do do do do");
+        x.set(0, 0, 0);
+        Checks.due("doe, doe, doe and do", 0, x.line(0, 0, 0, 2));
+        Checks.due("with a long form", 1, x.line(0, 0, 0, 4));
+        Checks.due("words", 4, x.follow(1, 0));
+        x.set(1, 0, 1);
+        Checks.due("a doe for two, a doe, and a do", 3, x.page(1, 0, 2));
+        Checks.due("through all", 4, x.page(1, 0, 3));
     }
 
     // ---- promise 14
@@ -536,7 +555,10 @@ public final class EdgesOfBooksAndPagesTests {
         });
         Checks.holds(15, "as they were told", () -> {
             dueSkip("another form", "do a doe b", 0, 4, 4, 4);
+            dueSkip("the short form of it", "doe a do b", 0, 4, 4, 4);
             dueSkip("the same form", "doe a doe b", 0, 2, 4, 2);
+            dueSkip("the same short form", "do a do b", 0, 2, 4, 2);
+            dueSkip("the same form behind the other one", "do doe do b", 0, 2, 4, 2);
         });
         Checks.holds(15, "goes on behind the first such one", () -> {
             dueSkip("the first of three", "a b a a c", 0, 3, 5, 3);
@@ -645,6 +667,8 @@ public final class EdgesOfBooksAndPagesTests {
         });
         Checks.holds(17, "each one if there are as many units left", () -> {
             dueLine("3 for 3", line(12, 0, "x abcde bcdefghi", GROWS), 2, 0, 1, 1);
+            dueLine("3 for 3, of a word that was told long", line(12, 0, "x abcdefgh bcdefghi", GROWS), 2, 0, 1, 1);
+            dueLine("3 for 2, of a word that was told long", line(12, 0, "xy abcdefgh bcdefghi", GROWS), 2, 2, 1, 0);
             dueLine("3 for 2", line(12, 0, "xy abcde bcdefghi", GROWS), 2, 2, 1, 0);
             dueLine("3 of the first one, of 3 for both", line(12, 0, "abcde b cdefghij", GROWS, "b bc"), 2, 0, 1, 1);
             dueLine("1 of the first one, of 3 for both", line(12, 0, "b abcde cdefghij", GROWS, "b bc"), 2, 2, 1, 2);

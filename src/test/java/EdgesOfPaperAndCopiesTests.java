@@ -516,6 +516,31 @@ public final class EdgesOfPaperAndCopiesTests {
         });
         Checks.holds(34, "of its sort, in a place that is corrected, too", EdgesOfPaperAndCopiesTests::printedWrongly);
         Checks.holds(34, "as it is printed in a copy", EdgesOfPaperAndCopiesTests::printedStates);
+        Checks.holds(34, "as it is printed in a copy, by states of many sheets", () -> {
+            House x = Shop.withBook(2, 1, 10, 1, 9);
+            Checks.castAll(x, "abc", 2);
+            Checks.copy(x, 0, "abc zzz");
+            Shop.setAll(x, 0);
+            x.lock(0, 0, 0);
+            x.lock(0, 1, 1);
+            x.men(0, 1);
+            x.print(0, 0, 0);
+            x.pass(3);
+            x.cast(25, 9);
+            Checks.due("behind two sheets", 1, x.correct(0, 0, 4));
+            x.pass(3);
+            Checks.due("behind five sheets", 2, x.correct(0, 0, 3));
+            x.pass(2);
+            Checks.due("behind seven sheets", 3, x.correct(0, 0, 5));
+            x.pass(2);
+            Shop.printOut(x, 0, 1);
+            x.bind(0);
+            String[] due = {"abc ...", "abc ...", "abc .z.", "abc .z.", "abc .z.", "abc zz.", "abc zz.", "abc zzz",
+                "abc zzz"};
+            for (int copy = 0; copy < due.length; copy++) {
+                Checks.dueText("copy " + copy, due[copy], Checks.printed(x, 0, copy, 0, 0));
+            }
+        });
         Checks.holds(34, "with all places as they were wanted", () -> {
             House x = Shop.withBook(2, 1, 10, 1, 2);
             x.cast(26, 1);

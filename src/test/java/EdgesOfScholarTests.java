@@ -418,6 +418,9 @@ public final class EdgesOfScholarTests {
                     .hands(0));
             Checks.due("three", 3, pages(24, "go do/go do/go do/go do", 0, 1, 2, 1).hands(0));
             Checks.due("the first is like all", 2, pages(24, "go/do/do", 1, 0, 1).hands(0));
+            Checks.due("two alike, and two alike", 2, pages(10, "do/do/do/do", 0, 0, 1, 1).hands(0));
+            Checks.due("two alike, and three alike", 2, pages(10, "do/do/do/do/do", 1, 1, 0, 0, 0).hands(0));
+            Checks.due("each second one alike", 2, pages(10, "do/do/do/do/do/do", 0, 1, 0, 1, 0, 1).hands(0));
             Checks.due("two and two", 2, pages(10, "do/go/do/go", 0, 0, 1, 2).hands(0));
             Checks.due("two and two, the other way", 2, pages(10, "do/go/go/do", 1, 2, 0, 0).hands(0));
             Checks.due("a page that fits to both", 2, pages(24, "do/do/ab", 0, 1, 1).hands(0));

@@ -234,7 +234,8 @@ public final class EdgesOfWordsAndTypeTests {
     private static void spelling() {
         Checks.holds(5, "not a text of two words with a blank between them", () -> {
             String[] bad = {"", "a", "a ", "a/ab", "a ab c", "a ab/c", " a ab", "a  ab", "a ab ", "a /ab",
-                "a abcdefghi"};
+                "a abcdefghi", " a", " ab", " abc", "/abc", "abc ", "ab abc ", "abcdef abcdefghi", "abcdefg abcdefghi",
+                "abcdefgh abcdefghi", "abcdefgh abcdefghij"};
             for (String text : bad) {
                 refusesSpelling(new House(), text, Checks.ARGUMENT);
             }
