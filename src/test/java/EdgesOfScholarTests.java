@@ -413,6 +413,11 @@ public final class EdgesOfScholarTests {
             Checks.due("two pages of another book", 1, z.hands(1));
         });
         Checks.holds(41, "pages that are alike need not be by one hand", EdgesOfScholarTests::handsInARing);
+        Checks.holds(41, "two unlike ones in one, whichever of all 16 pages it is", () -> {
+            for (int page = 0; page < 16; page++) {
+                dueUnlikeOthers(page);
+            }
+        });
         Checks.holds(41, "the least number into which all pages that are set can be parted", () -> {
             Checks.due("four of each two", 4, pages(24, "go do/go do/go do/go do/go do/go do", 0, 1, 2, 3, 3, 2)
                     .hands(0));
@@ -425,6 +430,24 @@ public final class EdgesOfScholarTests {
             Checks.due("two and two, the other way", 2, pages(10, "do/go/go/do", 1, 2, 0, 0).hands(0));
             Checks.due("a page that fits to both", 2, pages(24, "do/do/ab", 0, 1, 1).hands(0));
         });
+    }
+
+    /** Of 16 pages this one has the long form, all others the short one; in another book the last page has neither. */
+    private static void dueUnlikeOthers(int page) {
+        House x = new House();
+        Checks.spelling(x, "do doe");
+        x.hand(0, 0, 0);
+        x.hand(1, 0, 0);
+        for (int book = 0; book < 2; book++) {
+            x.book(2, 4, 10, 1, 2);
+            Checks.copy(x, book, "do/do/do/do/do/do/do/do/do/do");
+            Checks.copy(x, book, book == 0 ? "do/do/do/do/do/do" : "do/do/do/do/do/ab");
+            for (int other = 0; other < 16; other++) {
+                x.set(book, other, other == page ? 1 : 0);
+            }
+        }
+        Checks.due("page " + page + " of 16 has the long form", 2, x.hands(0));
+        Checks.due("page " + page + " of 15, and one of neither", page < 15 ? 2 : 1, x.hands(1));
     }
 
     /** Each of six pages is unlike two others; the first two, which are alike, are by two hands all the same. */
@@ -534,6 +557,13 @@ public final class EdgesOfScholarTests {
                 dueAcross(week, 70, 2);
             }
         });
+        Checks.holds(42, "divided by the hours without holidays, of many weeks", () -> {
+            for (int hours = 102; hours <= 106; hours++) {
+                for (int from : new int[] {0, 1, 44, 45, 59, 60, 69, 70, 100, 4200, 4242}) {
+                    dueWeeks(from, hours);
+                }
+            }
+        });
         Checks.holds(42, "as the first of them was put on a press", () -> {
             House x = printable(2, 2);
             x.men(2, 0);
@@ -565,6 +595,56 @@ public final class EdgesOfScholarTests {
         x.print(1, 0, 2);
         Checks.due("DONE", 2, x.pass(12));
         Checks.due("from the hour " + from, due, x.presses(0));
+    }
+
+    private static void passTo(House x, int hour) {
+        while (x.hour() < hour) {
+            x.pass(Math.min(70, hour - x.hour()));
+        }
+    }
+
+    private static boolean isHoliday(int hour) {
+        return hour / 10 % 7 == 6;
+    }
+
+    /** The hour that is so many hours without holidays later, or earlier. */
+    private static int worked(int from, int hours) {
+        int hour = from;
+        for (int left = Math.abs(hours); left > 0; left--) {
+            do {
+                hour += hours > 0 ? 1 : -1;
+            } while (isHoliday(hour));
+        }
+        return hour;
+    }
+
+    /** Eight formes that need 104 hours are printed from an hour on; the last one is DONE in the last of so many. */
+    private static void dueWeeks(int from, int hours) {
+        House x = Shop.withBook(2, 4, 10, 1, 24);
+        Checks.copy(x, 0, "a");
+        Shop.setPages(x, 0, 0, 16);
+        passTo(x, from);
+        int[] order = {0, 2, 4, 1, 3, 5, 6};
+        for (int at = 0; at < order.length; at++) {
+            int press = at % 3;
+            x.men(press, 2);
+            x.lock(0, order[at], press);
+            x.print(press, 0, order[at]);
+            if (press == 2) {
+                passTo(x, x.hour() + 24);
+                for (int done = at - 2; done <= at; done++) {
+                    x.putAway(0, order[done], 0);
+                }
+            }
+        }
+        int last = worked(from, isHoliday(from) ? hours : hours - 1);
+        int begin = worked(last, -12);
+        passTo(x, begin);
+        x.lock(0, 7, 5);
+        x.print(1, 0, 7);
+        passTo(x, last + 1);
+        Checks.due("the hour of the last one", last, x.forme(0, 7, 4));
+        Checks.due("from " + from + " in " + hours, hours < 104 ? 2 : 1, x.presses(0));
     }
 
     // ---- promise 43
@@ -599,6 +679,12 @@ public final class EdgesOfScholarTests {
             Checks.due("all of itself", 5, x.follows(0, 0));
             Checks.due("a line later", 1, twoBooks("a/a/b/c/d/e/f/g", "a/b/c/d/e/f/g/h").follows(0, 1));
             Checks.due("eight lines", 8, twoBooks("a/b/c/d/e/f/g/h", "x a/b/x c/d/x e/f/x g/h").follows(0, 1));
+            House y = Shop.withBook(2, 4, 10, 4, 2);
+            for (int text = 0; text < 3; text++) {
+                Checks.copy(y, 0, "a/b/c/d/e/f/g/h/i/j/k/l/m/n/o/p/q/r/s/t");
+            }
+            Shop.setPages(y, 0, 0, 16);
+            Checks.due("60 lines", 60, y.follows(0, 0));
             Checks.due("a book without pages", 0, x.follows(2, 0));
             Checks.due("to a book without pages", 0, x.follows(0, 2));
         });
