@@ -253,11 +253,11 @@ public final class AimTests {
     public static void main(String[] args) {
         for (int seed = 0; seed < RUNS; seed++) {
             AimTests run = new AimTests(seed);
-            run.work();
+            Checks.holds(13, "a book that follows another one line by line", run::work);
             Asked asked = new Asked(run.x::again);
-            run.dueOrder(asked);
-            run.dueFewest(asked);
-            run.duePlaces(asked);
+            Checks.holds(40, "what truly was is among what fits, and each claim holds", () -> run.dueOrder(asked));
+            Checks.holds(41, "what truly was is among what fits, by hands and presses", () -> run.dueFewest(asked));
+            Checks.holds(8, "it is in a box, or at a place of a page", () -> run.duePlaces(asked));
         }
         System.out.println(claimsOfOrder + " claims of order, " + claimsOfHands + " of two hands or more, "
                 + claimsOfPresses + " of two presses or more, " + linesFollowed + " lines that follow, " + piecesAway

@@ -156,7 +156,8 @@ public final class AskingTests {
         askAll();
         for (int steps = 0; steps <= LIFE.size(); steps++) {
             int its = steps;
-            Checks.changeNothing(() -> lived(its), ASKING);
+            Checks.holds(16, "pages, states, orders and claims are asked, and change nothing",
+                    () -> Checks.changeNothing(() -> lived(its), ASKING));
         }
         ASKING.forEach((name, call) -> {
             int ahead = answered;

@@ -127,6 +127,26 @@ public final class LanguageTests {
         for (String broken : new SourceRules(SOURCE).broken) {
             holds(false, broken);
         }
+        sections(code, Files.readString(DOCUMENT));
+    }
+
+    /** "Ahead of the calls .. the interface says: ---- ..": these stand in the source behind such a line, in order. */
+    private static void sections(String code, String document) {
+        Matcher section = Pattern.compile("Ahead of the calls (.*?) the interface says: (---- .*?)\\.\n")
+                .matcher(document);
+        int at = 0;
+        int found = 0;
+        while (section.find()) {
+            at = code.indexOf("    // " + section.group(2) + "\n", at);
+            holds(at >= 0, "the line " + section.group(2));
+            int end = code.indexOf("    // ---- ", at + 1);
+            for (String name : section.group(1).replace("`", "").split(", ")) {
+                at = code.indexOf(" " + name + "(", at);
+                holds(at >= 0 && at < end, name + " behind the line " + section.group(2));
+                found++;
+            }
+        }
+        holds(found == 43, "the document tells of 43 calls in sections, found " + found);
     }
 
     public static void main(String[] args) throws IOException {
