@@ -194,25 +194,7 @@ public final class ScholarTests {
         Checks.due("a line that ended ahead of a word", 1, pages(10, 2, "do abcdefgh/do", 0, 1).hands(0));
         Checks.due("lines of a page", 2, pages(10, 2, "do/ab/doe/do", 0, 1).hands(0));
         crowdedHands();
-        handsInARing();
         handsOfTwoBooks();
-    }
-
-    /** Six pages, each unlike two others, so that the first two pages, which are alike, are by two hands all the same. */
-    private static void handsInARing() {
-        House x = new House();
-        for (String pair : new String[] {"a ab", "c cd", "e ef", "g gh", "i ij", "k kl"}) {
-            Checks.spelling(x, pair);
-        }
-        x.hand(0, 0, 0);
-        x.hand(63, 0, 0);
-        x.book(4, 1, 24, 1, 2);
-        Checks.copy(x, 0, "k a/e g/a c/c e/g i/i k");
-        int[] by = {0, 1, 1, 0, 0, 1};
-        for (int page = 0; page < 6; page++) {
-            x.set(0, page, by[page]);
-        }
-        Checks.due("hands in a ring", 2, x.hands(0));
     }
 
     private static void handsOfTwoBooks() {
